@@ -1,0 +1,113 @@
+public final class Promise04SettingsTest {
+  public static void main(String[] args) {
+    from();
+    most();
+    age();
+    together();
+    streamsOfProjections();
+    wrongCalls();
+    powerFails();
+    Due.end();
+  }
+
+  private static void from() {
+    EventVault vault = Vaults.with(0, 1, 2, 3);
+    Due.is("nothing set", 0, () -> vault.settings(0, 0, 0, 0));
+    Due.is("from 2", 2, () -> vault.settings(0, 0, 0, 2));
+    Due.is("hidden for ever", 2, () -> vault.settings(0, 0, 0, 0));
+    Due.is("lower again", 2, () -> vault.settings(0, 0, 0, 1));
+    Due.is("behind the last", 3, () -> vault.settings(0, 0, 0, Integer.MAX_VALUE));
+    Vaults.append(vault, 0, 4);
+    Due.is("what came then is hidden too", 0, () -> vault.told(3));
+    Due.is("but not what comes behind", 4, () -> vault.settings(0, 0, 0, 0));
+    Vaults.append(vault, 0, 5);
+    Due.is("it is visible", 1, () -> vault.told(3));
+    Due.is("without events", 0, () -> vault.settings(5, 0, 0, 7));
+    Due.is("bytes", 96 + 48 + 48 + 7 * 32, () -> vault.told(4));
+  }
+
+  private static void most() {
+    EventVault vault = Vaults.with(0, 1, 2, 3);
+    Due.is("as many as there are", 0, () -> vault.settings(0, 3, 0, 0));
+    Due.is("two", 1, () -> vault.settings(0, 2, 0, 0));
+    Due.is("more again", 1, () -> vault.settings(0, Integer.MAX_VALUE, 0, 0));
+    Due.is("one", 2, () -> vault.settings(0, 1, 0, 0));
+    Vaults.append(vault, 0, 4, 5);
+    Due.is("only the last that came", 4, () -> vault.settings(0, 0, 0, 0));
+    Due.is("without events", 0, () -> vault.settings(1, Integer.MAX_VALUE, 0, 0));
+    Vaults.append(vault, 2, 1, 2);
+    Due.is("another stream's stay", 0, () -> vault.settings(2, 0, 0, 0));
+  }
+
+  private static void age() {
+    EventVault vault = Vaults.with(0, 1);
+    vault.tick(3);
+    Vaults.append(vault, 0, 2);
+    vault.tick(2);
+    Due.is("not yet", 0, () -> vault.settings(0, 0, 6, 0));
+    Due.is("the first", 1, () -> vault.settings(0, 0, 5, 0));
+    Due.is("for ever", 1, () -> vault.settings(0, 0, 0, 0));
+    Due.is("all", 2, () -> vault.settings(0, 0, 1, 0));
+    Vaults.append(vault, 0, 3);
+    Due.is("what comes is not old", 1, () -> vault.told(3));
+    vault.tick(1);
+    Due.is("but soon", 0, () -> vault.told(3));
+  }
+
+  private static void together() {
+    EventVault vault = Vaults.with(0, 1, 2, 3, 4);
+    Due.is("the highest of all", 3, () -> vault.settings(0, 2, 1000, 3));
+    EventVault other = Vaults.with(0, 1, 2, 3, 4);
+    Due.is("the highest of all, by most", 2, () -> other.settings(0, 2, 1000, 1));
+  }
+
+  private static void streamsOfProjections() {
+    EventVault vault = Vaults.with(0, 1, 2, 3);
+    Due.is("without a projection", 0, () -> vault.settings(39, 1, 0, 0));
+    Vaults.project(vault, 7, 1, 0, 18, 0);
+    vault.step(7);
+    vault.step(7);
+    Due.is("only the last emitted", 4, () -> vault.read(39, 0, 0, false));
+    Due.is("from", 2, () -> vault.settings(39, 0, 0, 9));
+    vault.step(7);
+    Due.is("hidden as it comes", -1, () -> vault.read(39, 0, 0, false));
+    Due.is("its version", 2, () -> vault.told(139));
+  }
+
+  private static void wrongCalls() {
+    EventVault vault = new EventVault();
+    Due.badArgument("stream -1", () -> vault.settings(-1, 0, 0, 0));
+    Due.badArgument("stream 40", () -> vault.settings(40, 0, 0, 0));
+    Due.badArgument("most", () -> vault.settings(0, -1, 0, 0));
+    Due.badArgument("age", () -> vault.settings(0, 0, -1, 0));
+    Due.badArgument("from", () -> vault.settings(0, 0, 0, Integer.MIN_VALUE));
+    Due.is("no record", 0, () -> vault.told(7));
+    vault.end(3);
+    Due.badState("ended", () -> vault.settings(3, 0, 0, 0));
+    Due.badArgument("ended, and a wrong number", () -> vault.settings(3, 0, 0, -1));
+    EventVault off = Vaults.off();
+    Due.badState("off", () -> off.settings(0, 0, 0, 0));
+    Due.badArgument("off, and no such stream", () -> off.settings(40, 0, 0, 0));
+    EventVault full = Vaults.almostFull(24);
+    Due.badState("the disk is full", () -> full.settings(0, 1, 0, 0));
+    EventVault fits = Vaults.almostFull(32);
+    Due.is("just so much room", 0, () -> fits.settings(0, 1, 0, 0));
+  }
+
+  private static void powerFails() {
+    EventVault vault = Vaults.with(0, 1, 2);
+    vault.power(31);
+    Due.powerFails("a byte too few", () -> vault.settings(0, 0, 0, 1));
+    vault.reopen();
+    Due.is("as before", 2, () -> vault.told(3));
+    vault.power(32);
+    Due.powerFails("all bytes", () -> vault.settings(0, 0, 0, 1));
+    vault.reopen();
+    Due.is("set", 1, () -> vault.told(3));
+    Vaults.append(vault, 3, 1, 2);
+    vault.settings(3, 1, 0, 0);
+    vault.reopen();
+    Vaults.append(vault, 3, 3);
+    Due.is("most lasts", 4, () -> vault.read(3, 0, 0, false));
+  }
+}

@@ -1,0 +1,99 @@
+public final class Promise06TickTest {
+  public static void main(String[] args) {
+    time();
+    whatIsOut();
+    parksBeforeItHides();
+    wrongCalls();
+    powerFails();
+    Due.end();
+  }
+
+  private static void time() {
+    EventVault vault = new EventVault();
+    Due.is("none is out", 0, () -> vault.tick(1));
+    vault.tick(1000);
+    Due.is("time", 1001, () -> vault.told(1));
+    Due.is("bytes", 64, () -> vault.told(4));
+    vault.reopen();
+    Due.is("time lasts", 1001, () -> vault.told(1));
+    Vaults.append(vault, 0, 1);
+    Due.is("an event's time", 1001, () -> vault.event(0, 5));
+  }
+
+  private static void whatIsOut() {
+    EventVault vault = Vaults.with(0, 1, 2, 3);
+    vault.group(0, -1, 0, 0);
+    vault.group(7, 0, 1, 1);
+    vault.take(0);
+    vault.tick(1);
+    vault.take(0);
+    vault.take(7);
+    Due.is("not yet", 0, () -> vault.tick(6));
+    Due.is("three are out", 3, () -> vault.told(300) + vault.told(307));
+    int before = vault.told(4);
+    Due.is("the first one", 1, () -> vault.tick(1));
+    Due.is("it is parked", 1, () -> vault.told(500));
+    Due.is("bytes with one that is parked", before + 40, () -> vault.told(4));
+    Due.is("the others", 2, () -> vault.tick(100));
+    Due.is("one is parked, one is not", before + 80, () -> vault.told(4));
+    Due.is("parked for the one", 2, () -> vault.told(500));
+    Due.is("none for the other", 0, () -> vault.told(507));
+    Due.is("which gets it again", 1, () -> vault.take(7));
+    Due.is("one of a tick that parks is one record", 1, () -> {
+      int records = vault.told(7);
+      vault.tick(8);
+      return vault.told(7) - records;
+    });
+  }
+
+  private static void parksBeforeItHides() {
+    EventVault vault = Vaults.with(0, 1, 2);
+    vault.group(0, 0, 0, 0);
+    vault.take(0);
+    vault.settings(0, 0, 0, 1);
+    vault.settings(0, 0, 8, 1);
+    vault.take(0);
+    int before = vault.told(4);
+    Due.is("a hidden one, and one that is hidden by this tick", 2, () -> vault.tick(8));
+    Due.is("both are parked", before + 48, () -> vault.told(4));
+    Due.is("neither is visible", 0, () -> vault.told(500));
+    Due.is("none is out", 0, () -> vault.told(300));
+  }
+
+  private static void wrongCalls() {
+    EventVault vault = new EventVault();
+    Due.badArgument("0", () -> vault.tick(0));
+    Due.badArgument("-1", () -> vault.tick(-1));
+    Due.badArgument("1001", () -> vault.tick(1001));
+    EventVault off = Vaults.off();
+    Due.badState("off", () -> off.tick(1));
+    Due.badArgument("off, and 0", () -> off.tick(0));
+    EventVault full = Vaults.with(0, 1);
+    full.group(0, 0, 0, 0);
+    full.take(0);
+    Vaults.fillUp(full, 32);
+    Due.badState("no room for the one that parks", () -> full.tick(8));
+    Due.is("it is out still", 1, () -> full.told(300));
+    Due.is("time as before", 0, () -> full.told(1));
+    Due.is("room for none", 0, () -> full.tick(7));
+    Due.badState("no room at all", () -> full.tick(1));
+  }
+
+  private static void powerFails() {
+    EventVault vault = Vaults.with(0, 1);
+    vault.group(0, 0, 0, 0);
+    vault.take(0);
+    vault.power(39);
+    Due.powerFails("a byte too few", () -> vault.tick(8));
+    vault.reopen();
+    Due.is("time as before", 0, () -> vault.told(1));
+    Due.is("not parked", 0, () -> vault.told(500));
+    vault.take(0);
+    vault.power(40);
+    Due.powerFails("all bytes", () -> vault.tick(8));
+    vault.reopen();
+    Due.is("time", 8, () -> vault.told(1));
+    Due.is("parked", 1, () -> vault.told(500));
+    Due.is("none is out", 0, () -> vault.told(300));
+  }
+}

@@ -1,0 +1,170 @@
+public final class Promise17ScavengeTest {
+  public static void main(String[] args) {
+    empty();
+    streams();
+    groups();
+    projections();
+    changesNothingElse();
+    wrongCalls();
+    wouldBeFull();
+    powerFails();
+    Due.end();
+  }
+
+  private static void empty() {
+    EventVault vault = new EventVault();
+    Due.is("nothing but its head", 64, vault::scavenge);
+    Due.is("one record", 1, () -> vault.told(7));
+    Due.is("bytes", 64, () -> vault.told(4));
+    vault.tick(5);
+    Due.is("behind it", 96, () -> vault.told(4));
+    Due.is("two records", 2, () -> vault.told(7));
+    Due.is("once more", 64, vault::scavenge);
+    Due.is("time stays", 5, () -> vault.told(1));
+  }
+
+  private static void streams() {
+    EventVault vault = Vaults.with(0, 1, 2, 3);
+    Due.is("three events of a stream", 64 + 3 * 24 + 24, vault::scavenge);
+    vault.settings(0, 0, 0, 2);
+    Due.is("one of them", 64 + 24 + 24, vault::scavenge);
+    vault.settings(1, 1, 0, 0);
+    vault.settings(2, 0, 1, 0);
+    vault.settings(39, 0, 0, 1);
+    vault.settings(3, 0, 0, 0);
+    Due.is("three with a setting, and one with none", 64 + 24 + 4 * 24, vault::scavenge);
+    vault.settings(1, 0, 0, 0);
+    vault.end(4);
+    Due.is("one less, and one that is ended", 64 + 24 + 4 * 24, vault::scavenge);
+    vault.end(0);
+    Due.is("no events, but a version", 64 + 4 * 24, vault::scavenge);
+  }
+
+  private static void groups() {
+    EventVault vault = Vaults.with(0, 1, 2, 3, 4);
+    int events = 64 + 4 * 24 + 24;
+    vault.group(0, 0, 0, 0);
+    Due.is("a group", events + 32, vault::scavenge);
+    vault.group(7, -1, 0, 0);
+    for (int i = 0; i < 4; i++) {
+      vault.take(0);
+    }
+    vault.acknowledge(0, 0);
+    vault.refuse(0, 1);
+    vault.acknowledge(0, 2);
+    Due.is("two done and one parked", events + 64 + 12, vault::scavenge);
+    vault.settings(0, 0, 0, 2);
+    Due.is("one of them is visible", events - 48 + 64 + 4, vault::scavenge);
+    vault.reopen();
+    Due.is("it is done still", 1, () -> vault.told(400));
+    Due.is("the other is open", 3, () -> vault.take(0));
+    vault.group(0, 0, 3, 0);
+    Due.is("made anew", events - 48 + 64, vault::scavenge);
+  }
+
+  private static void projections() {
+    EventVault vault = Vaults.with(0, 1);
+    Vaults.append(vault, 1, 2);
+    int events = 64 + 2 * 24 + 2 * 24;
+    Vaults.project(vault, 0, 1, 0, 6, 2);
+    Vaults.project(vault, 5, 14, 0);
+    Due.is("two projections", events + 2 * 64 + 3 * 8, vault::scavenge);
+    vault.step(0);
+    Due.is("with variables of a stream", events + 2 * 64 + 3 * 8 + 40, vault::scavenge);
+    vault.step(0);
+    vault.step(5);
+    Due.is("of two streams, and broken", events + 2 * 64 + 3 * 8 + 80, vault::scavenge);
+    vault.reopen();
+    Due.is("cursor", 2, () -> vault.told(600));
+    Due.is("broken", 1, () -> vault.told(705));
+    Due.is("a variable", 20, () -> vault.variable(0, 1, 2));
+    Vaults.project(vault, 0, 0, -1, 0, 1, 6, 0, 6, 1);
+    vault.step(0);
+    Due.is("1 and -1 of one stream", events + 2 * 64 + 5 * 8 + 40, vault::scavenge);
+  }
+
+  private static void changesNothingElse() {
+    EventVault vault = Vaults.with(0, 1, 2, 3);
+    vault.group(0, 0, 0, 1);
+    vault.take(0);
+    vault.take(0);
+    vault.settings(0, 0, 0, 1);
+    vault.draft(9, 0, 0);
+    vault.code(19, 0);
+    vault.scavenge();
+    Due.is("positions", 3, () -> vault.told(2));
+    Due.is("version", 2, () -> vault.told(100));
+    Due.is("drafted", 1, () -> vault.told(5));
+    Due.is("put together", 1, () -> vault.told(6));
+    Due.is("out", 2, () -> vault.told(300));
+    Due.is("a hidden one that is out", 1, () -> vault.acknowledge(0, 0));
+    vault.refuse(0, 1);
+    vault.take(0);
+    Due.is("tries", 1, () -> vault.refuse(0, 1));
+    vault.settings(0, 0, 0, 0);
+    Due.is("hidden for ever", 2, () -> vault.told(3));
+    Due.is("a position as it was", 2, () -> vault.read(0, 2, 0, false));
+    Due.is("positions go on", 3, () -> vault.append(0, 2));
+    vault.reopen();
+    Due.is("hidden for ever, too, when it was off", 3, () -> vault.told(3));
+  }
+
+  private static void wrongCalls() {
+    EventVault off = Vaults.off();
+    Due.badState("off", off::scavenge);
+  }
+
+  /** More calls than an object is promised for. Eight projections take 40 bytes more each as they are kept. */
+  private static void wouldBeFull() {
+    EventVault vault = new EventVault();
+    for (int i = 0; i < 300; i++) {
+      int first = 8 * i;
+      Vaults.append(vault, i % 32, first, first + 1, first + 2, first + 3, first + 4, first + 5, first + 6, first + 7);
+    }
+    for (int g = 0; g < 8; g++) {
+      park(vault, g, 1153);
+    }
+    int kept = 64 + 2400 * 24 + 32 * 24 + 8 * (32 + 1153 * 4);
+    Due.is("many events, and many that are parked", kept, vault::scavenge);
+    for (int p = 0; p < 8; p++) {
+      Vaults.project(vault, p, new int[128]);
+    }
+    int bytes = kept + 8 * (24 + 64 * 8);
+    Due.badState("192 bytes too many", vault::scavenge);
+    Due.is("bytes as before", bytes, () -> vault.told(4));
+    Due.is("records as before", 9, () -> vault.told(7));
+    vault.group(7, -1, 0, 0);
+    Due.is("fewer that are parked", kept + 8 * (64 + 64 * 8) - 1153 * 4, vault::scavenge);
+  }
+
+  private static void park(EventVault vault, int g, int count) {
+    vault.group(g, -1, 0, 0);
+    for (int i = 0; i < count; i++) {
+      vault.take(g);
+      vault.refuse(g, i);
+      if (Vaults.free(vault) < 64) {
+        vault.scavenge();
+      }
+    }
+  }
+
+  private static void powerFails() {
+    EventVault vault = Vaults.with(0, 1, 2, 3);
+    vault.settings(0, 0, 0, 2);
+    vault.settings(0, 0, 0, 0);
+    int before = vault.told(4);
+    vault.power(64 + 24 + 23);
+    Due.powerFails("a byte too few", vault::scavenge);
+    Due.is("bytes as before", before, () -> vault.told(4));
+    Due.is("records as before", 3, () -> vault.told(7));
+    Due.is("positions", 3, vault::reopen);
+    Due.is("hidden for ever", 1, () -> vault.told(3));
+    vault.power(64 + 24 + 24);
+    Due.powerFails("all bytes", vault::scavenge);
+    Due.is("bytes anew", 112, () -> vault.told(4));
+    Due.is("one record", 1, () -> vault.told(7));
+    Due.is("positions stay", 3, vault::reopen);
+    Due.is("visible", 1, () -> vault.told(3));
+    Due.is("its position", 2, () -> vault.read(0, 0, 0, false));
+  }
+}

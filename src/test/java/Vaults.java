@@ -1,0 +1,78 @@
+/** Objects and short runs of calls that many tests begin with. */
+final class Vaults {
+  private Vaults() {
+  }
+
+  /** Appends events of TYPE 0 and DATA 10 times their IDS, whatever the version is. */
+  static int append(EventVault vault, int stream, int... ids) {
+    for (int id : ids) {
+      vault.draft(id, 0, 10L * id);
+    }
+    return vault.append(stream, -2);
+  }
+
+  static EventVault with(int stream, int... ids) {
+    EventVault vault = new EventVault();
+    append(vault, stream, ids);
+    return vault;
+  }
+
+  static EventVault off() {
+    EventVault vault = new EventVault();
+    turnOff(vault);
+    return vault;
+  }
+
+  /** Nothing of the tick by which power fails lasts. */
+  static void turnOff(EventVault vault) {
+    vault.power(0);
+    try {
+      vault.tick(1);
+      throw new IllegalStateException("power did not fail");
+    } catch (ArithmeticException due) {
+      return;
+    }
+  }
+
+  /** Pairs of op and a. */
+  static void code(EventVault vault, int... program) {
+    for (int i = 0; i < program.length; i += 2) {
+      vault.code(program[i], program[i + 1]);
+    }
+  }
+
+  static int project(EventVault vault, int p, int... program) {
+    code(vault, program);
+    return vault.projection(p, -1, -1, false);
+  }
+
+  /** A disk with fewer bytes left than any record needs but those of 24 and 32: more calls than are promised. */
+  static EventVault almostFull(int left) {
+    EventVault vault = new EventVault();
+    fillUp(vault, left);
+    return vault;
+  }
+
+  /** Fills by records of 32, 48, 56 and so on, till so many bytes are left; left is to be a multiple of 8. */
+  static void fillUp(EventVault vault, int left) {
+    for (int free = free(vault); free > left; free = free(vault)) {
+      int over = free - left;
+      if (over >= 96 || over % 32 == 0) {
+        vault.settings(39, 0, 0, 0);
+      } else {
+        Vaults.projectFiller(vault, (over - 24) / 8);
+      }
+    }
+  }
+
+  private static void projectFiller(EventVault vault, int instructions) {
+    for (int i = 0; i < instructions; i++) {
+      vault.code(19, 0);
+    }
+    vault.projection(7, 0, 0, false);
+  }
+
+  static int free(EventVault vault) {
+    return 100000 - vault.told(4);
+  }
+}
