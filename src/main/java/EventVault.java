@@ -22,6 +22,7 @@ public final class EventVault {
   private static final int ANY_VERSION = -2;
   private static final int NONE = -1;
   private static final int BROKEN_BY_STEP = -2;
+  private static final int IDS_PER_POSITION = 4;
 
   private static final int APPEND_BYTES = 24;
   private static final int EVENT_BYTES = 24;
@@ -72,6 +73,9 @@ public final class EventVault {
       throw new IllegalArgumentException("no such stream or version");
     }
     requireOn();
+    if (drafted.count == 0) {
+      throw new IllegalStateException("the draft is empty");
+    }
     boolean comes = events.fits(stream, expected) && !events.hasVisibleId(drafted, stream);
     int there = comes ? NONE : events.findDraft(drafted, stream, expected);
     if (there != NONE) {
@@ -79,9 +83,8 @@ public final class EventVault {
       return there;
     }
     int size = APPEND_BYTES + EVENT_BYTES * drafted.count;
-    boolean can = comes && drafted.count > 0 && !events.streams[stream].ended
-        && events.hasRoom(drafted.count) && disk.hasRoom(size);
-    if (!can) {
+    boolean open = !events.streams[stream].ended;
+    if (!comes || !open || !events.hasRoom(drafted.count) || !disk.hasRoom(size)) {
       drafted.clear();
       throw new IllegalStateException("the draft cannot be appended");
     }
@@ -457,7 +460,7 @@ public final class EventVault {
     if (disk.writes(size)) {
       projections[p].keep(machine, events.streamOf[position]);
       projections[p].cursor = position + 1;
-      events.addEmitted(machine, PLAIN_STREAMS + p, 4 * position);
+      events.addEmitted(machine, PLAIN_STREAMS + p, IDS_PER_POSITION * position);
     }
     throwIfPowerFailed();
     return position;
@@ -691,7 +694,7 @@ public final class EventVault {
           same++;
         }
       }
-      return draft.count > 0 && same == draft.count;
+      return same == draft.count;
     }
 
     void addDraft(Draft draft, int stream) {
@@ -859,6 +862,8 @@ public final class EventVault {
     private static final int OPS = 20;
     private static final int GET = 5;
     private static final int SET = 6;
+    private static final int ADD = 7;
+    private static final int SAME = 12;
     private static final int JUMP = 16;
     private static final int JUMP_IF_ZERO = 17;
     private static final int EMIT = 18;
@@ -1005,7 +1010,7 @@ public final class EventVault {
     private void work(int op, int a, Events events, int position) {
       if (op <= Program.GET) {
         push(pushed(op, a, events, position));
-      } else if (op >= 7 && op <= 12) {
+      } else if (op >= Program.ADD && op <= Program.SAME) {
         long top = pop();
         push(joined(op, pop(), top));
       } else {

@@ -13,6 +13,10 @@ public final class Promise03AppendTest {
   }
 
   private static void expectedVersions() {
+    EventVault fresh = new EventVault();
+    Due.badState("id 0 of a version that is not", () -> again(fresh, 0, 0));
+    Due.is("id 0", 0, () -> again(fresh, -1, 0));
+    Due.badState("id 0 twice, but once there", () -> again(fresh, -2, 0, 0));
     EventVault vault = Vaults.with(0, 1, 2);
     vault.draft(3, 0, 0);
     Due.badState("too low a version", () -> vault.append(0, 0));
@@ -103,6 +107,9 @@ public final class Promise03AppendTest {
   private static void wrongCalls() {
     EventVault vault = new EventVault();
     Due.badState("an empty draft", () -> vault.append(0, -2));
+    EventVault one = Vaults.with(0, 1);
+    Due.badState("an empty draft, and a version below", () -> one.append(0, -1));
+    Due.badState("an empty draft, and the version", () -> one.append(0, 0));
     vault.draft(1, 0, 0);
     Due.badArgument("stream -1", () -> vault.append(-1, -2));
     Due.badArgument("stream 32", () -> vault.append(32, -2));

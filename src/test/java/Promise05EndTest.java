@@ -7,6 +7,8 @@ public final class Promise05EndTest {
   }
 
   private static void ends() {
+    EventVault all = Vaults.with(0, 1, 2, 3);
+    Due.is("three were visible", 3, () -> all.end(0));
     EventVault vault = Vaults.with(0, 1, 2, 3);
     Vaults.append(vault, 31, 4);
     vault.settings(0, 2, 0, 0);

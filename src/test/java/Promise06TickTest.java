@@ -2,6 +2,7 @@ public final class Promise06TickTest {
   public static void main(String[] args) {
     time();
     whatIsOut();
+    eachItsOwnTime();
     parksBeforeItHides();
     wrongCalls();
     powerFails();
@@ -44,6 +45,22 @@ public final class Promise06TickTest {
       vault.tick(8);
       return vault.told(7) - records;
     });
+  }
+
+  private static void eachItsOwnTime() {
+    EventVault vault = Vaults.with(0, 1, 2, 3);
+    vault.group(0, 0, 0, 9);
+    for (int i = 0; i < 3; i++) {
+      vault.take(0);
+      vault.tick(2);
+    }
+    vault.acknowledge(0, 0);
+    Due.is("at 8", 0, () -> vault.tick(2));
+    Due.is("at 10", 1, () -> vault.tick(2));
+    Due.missing("the second is not out", () -> vault.acknowledge(0, 1));
+    Due.is("at 11", 0, () -> vault.tick(1));
+    Due.is("at 12", 1, () -> vault.tick(1));
+    Due.missing("the third is not out", () -> vault.acknowledge(0, 2));
   }
 
   private static void parksBeforeItHides() {

@@ -109,6 +109,10 @@ public final class Promise15StepTest {
   }
 
   private static void tooFull() {
+    EventVault twice = Vaults.with(0, 1, 2);
+    Vaults.project(twice, 0, 0, 1, 0, 1, 0, 1, 0, 1, 0, 1, 0, 1, 0, 1, 0, 1, 0, 1);
+    Due.is("nine stay behind", 0, () -> twice.step(0));
+    Due.is("but not for the next", 1, () -> twice.step(0));
     int[] pushers = {0, 1, 2, 3, 4, 5, 13};
     for (int op : pushers) {
       int[] program = new int[34];

@@ -81,6 +81,9 @@ public final class Promise17ScavengeTest {
     Vaults.project(vault, 0, 0, -1, 0, 1, 6, 0, 6, 1);
     vault.step(0);
     Due.is("1 and -1 of one stream", events + 2 * 64 + 5 * 8 + 40, vault::scavenge);
+    Vaults.project(vault, 0, 0, 1, 6, 0);
+    vault.step(0);
+    Due.is("the first variable alone", events + 2 * 64 + 3 * 8 + 40, vault::scavenge);
   }
 
   private static void changesNothingElse() {
@@ -114,27 +117,36 @@ public final class Promise17ScavengeTest {
     Due.badState("off", off::scavenge);
   }
 
-  /** More calls than an object is promised for. Eight projections take 40 bytes more each as they are kept. */
+  /** Eight projections take 40 bytes more each as they are kept. */
   private static void wouldBeFull() {
+    EventVault vault = crowded(1153);
+    int bytes = vault.told(4);
+    Due.badState("192 bytes too many", vault::scavenge);
+    Due.is("bytes as before", bytes, () -> vault.told(4));
+    Due.is("records as before", 9, () -> vault.told(7));
+    vault.group(7, -1, 0, 0);
+    Due.is("fewer that are parked", 100192 - 1153 * 4, vault::scavenge);
+    EventVault fits = crowded(1147);
+    Due.is("just so many", 100000, fits::scavenge);
+    Due.is("full", 100000, () -> fits.told(4));
+  }
+
+  /** Scavenged, and then eight projections made. More calls than an object is promised for. */
+  private static EventVault crowded(int parked) {
     EventVault vault = new EventVault();
     for (int i = 0; i < 300; i++) {
       int first = 8 * i;
       Vaults.append(vault, i % 32, first, first + 1, first + 2, first + 3, first + 4, first + 5, first + 6, first + 7);
     }
     for (int g = 0; g < 8; g++) {
-      park(vault, g, 1153);
+      park(vault, g, parked);
     }
-    int kept = 64 + 2400 * 24 + 32 * 24 + 8 * (32 + 1153 * 4);
+    int kept = 64 + 2400 * 24 + 32 * 24 + 8 * (32 + parked * 4);
     Due.is("many events, and many that are parked", kept, vault::scavenge);
     for (int p = 0; p < 8; p++) {
       Vaults.project(vault, p, new int[128]);
     }
-    int bytes = kept + 8 * (24 + 64 * 8);
-    Due.badState("192 bytes too many", vault::scavenge);
-    Due.is("bytes as before", bytes, () -> vault.told(4));
-    Due.is("records as before", 9, () -> vault.told(7));
-    vault.group(7, -1, 0, 0);
-    Due.is("fewer that are parked", kept + 8 * (64 + 64 * 8) - 1153 * 4, vault::scavenge);
+    return vault;
   }
 
   private static void park(EventVault vault, int g, int count) {

@@ -46,21 +46,21 @@ final class Vaults {
     return vault.projection(p, -1, -1, false);
   }
 
-  /** A disk with fewer bytes left than any record needs but those of 24 and 32: more calls than are promised. */
+  /** A disk with so many bytes left. It takes more calls than an object is promised for. */
   static EventVault almostFull(int left) {
     EventVault vault = new EventVault();
     fillUp(vault, left);
     return vault;
   }
 
-  /** Fills by records of 32, 48, 56 and so on, till so many bytes are left; left is to be a multiple of 8. */
+  /** So many bytes are left then, a multiple of 8: by records of 32, and one of a projection that fits the rest. */
   static void fillUp(EventVault vault, int left) {
     for (int free = free(vault); free > left; free = free(vault)) {
       int over = free - left;
       if (over >= 96 || over % 32 == 0) {
         vault.settings(39, 0, 0, 0);
       } else {
-        Vaults.projectFiller(vault, (over - 24) / 8);
+        projectFiller(vault, (over - 24) / 8);
       }
     }
   }
