@@ -46,6 +46,27 @@ final class Due {
     same(what, "throws.ArithmeticException", told(call));
   }
 
+  /** IllegalArgumentException is due, and all stays as it is. */
+  static void badArgument(String what, EventVault vault, Call call) {
+    unchanged(what, vault, () -> badArgument(what, call));
+  }
+
+  /** IllegalStateException is due, and all stays as it is. */
+  static void badState(String what, EventVault vault, Call call) {
+    unchanged(what, vault, () -> badState(what, call));
+  }
+
+  /** NoSuchElementException is due, and all stays as it is. */
+  static void missing(String what, EventVault vault, Call call) {
+    unchanged(what, vault, () -> missing(what, call));
+  }
+
+  static void unchanged(String what, EventVault vault, Deed deed) {
+    String before = Seen.of(vault);
+    deed.happen();
+    same("what changed by " + what, "nothing", Seen.difference(before, Seen.of(vault)));
+  }
+
   static String told(Call call) {
     try {
       return Long.toString(call.answer());

@@ -9,6 +9,10 @@ public final class Promise03AppendTest {
     emptiesTheDraft();
     limits();
     powerFails();
+    oneAndEight();
+    keepsTheDraft();
+    refusedButForTheDraft();
+    largestVersions();
     Due.end();
   }
 
@@ -154,10 +158,14 @@ public final class Promise03AppendTest {
       many.scavenge();
     }
     Vaults.append(many, 0, 1, 2, 3);
-    Due.badState("2501 events", () -> Vaults.append(many, 1, 1, 2));
+    refused("2501 events", many, 1, -2, 1, 2);
     Due.is("2500 events", 2499, () -> Vaults.append(many, 1, 1));
-    Due.badState("one more", () -> Vaults.append(many, 1, 2));
+    refused("one more", many, 1, -2, 2);
+    refused("one more at the version", many, 1, 0, 2);
     Due.is("positions", 2500, () -> many.told(2));
+    Due.is("what is there already makes none more", 2499, () -> Vaults.append(many, 1, 1));
+    Due.is("the last position", 1, () -> many.event(2499, 0));
+    Due.is("those that are there", 2496, () -> Vaults.append(many, 0, 1, 2, 3));
   }
 
   private static void powerFails() {
@@ -179,5 +187,89 @@ public final class Promise03AppendTest {
       vault.draft(id, 0, 0);
     }
     return vault.append(0, expected);
+  }
+
+  private static void oneAndEight() {
+    EventVault vault = new EventVault();
+    Due.is("one", 0, () -> again(vault, -1, 1));
+    Due.is("bytes of one", 48, () -> vault.told(4));
+    Due.is("eight", 1, () -> again(vault, 0, 2, 3, 4, 5, 6, 7, 8, 9));
+    Due.is("bytes of eight more", 48 + 24 + 8 * 24, () -> vault.told(4));
+    Due.is("version", 8, () -> vault.told(100));
+    Due.is("records", 2, () -> vault.told(7));
+    Due.is("the eight again", 1, () -> again(vault, 0, 2, 3, 4, 5, 6, 7, 8, 9));
+    Due.is("the last of them again", 8, () -> again(vault, 7, 9));
+    refused("the last of them, and one behind the version", vault, 0, 7, 9, 10);
+    refused("the first, and one before it", vault, 0, -2, 0, 1);
+  }
+
+  private static void keepsTheDraft() {
+    EventVault vault = Vaults.busy();
+    vault.draft(70, 0, 0);
+    vault.draft(71, 0, 0);
+    int[] noStreams = {-1, 32, 39, 40, Integer.MIN_VALUE, Integer.MAX_VALUE};
+    for (int stream : noStreams) {
+      Due.badArgument("stream " + stream, vault, () -> vault.append(stream, -2));
+    }
+    int[] noVersions = {-3, -4, Integer.MIN_VALUE};
+    for (int expected : noVersions) {
+      Due.badArgument("expected " + expected, vault, () -> vault.append(0, expected));
+    }
+    int positions = vault.told(2);
+    Due.is("the draft is whole", positions, () -> vault.append(9, -1));
+    Due.is("its last", 71, () -> vault.event(positions + 1, 2));
+    EventVault off = Vaults.busyAndOff();
+    off.draft(70, 0, 0);
+    Due.badState("off", off, () -> off.append(0, -2));
+    Due.badArgument("off, and stream -1", off, () -> off.append(-1, -2));
+    EventVault empty = Vaults.busy();
+    Due.badArgument("an empty draft, and stream 32", empty, () -> empty.append(32, -2));
+    Due.badArgument("an empty draft, and expected -3", empty, () -> empty.append(0, -3));
+    Due.badState("an empty draft", empty, () -> empty.append(0, -2));
+  }
+
+  private static void refusedButForTheDraft() {
+    EventVault vault = Vaults.busy();
+    refused("below the version", vault, 0, 2, 70);
+    refused("above the version", vault, 0, 4, 70);
+    refused("a visible id, and a new one", vault, 0, 3, 4, 70);
+    refused("a visible id at the version", vault, 0, 3, 4);
+    refused("ended, and anything", vault, 5, -2, 70);
+    refused("ended, and its version", vault, 5, 0, 70);
+    refused("ended, and what was there", vault, 5, -1, 7);
+    EventVault full = Vaults.busyAndFull(40);
+    refused("no room for one", full, 0, -2, 70);
+    EventVault fuller = Vaults.busyAndFull(208);
+    refused("no room for eight", fuller, 9, -1, 1, 2, 3, 4, 5, 6, 7, 8);
+    Due.is("room for seven", fuller.told(2), () -> again(fuller, 3, 71, 72, 73, 74, 75, 76, 77));
+    EventVault fits = Vaults.busyAndFull(216);
+    Due.is("room for eight", fits.told(2), () -> again(fits, 3, 71, 72, 73, 74, 75, 76, 77, 78));
+    Due.is("none is left", 0, () -> Vaults.free(fits));
+    fits.power(0);
+    refused("full, so power does not fail", fits, 0, -2, 79);
+    Due.is("on", 1, () -> fits.told(0));
+  }
+
+  /** What is expected may be as high as an int goes: the first n + 1 is none then, by whatever wrap-around. */
+  private static void largestVersions() {
+    EventVault vault = Vaults.with(0, 1);
+    int[] versions = {1, Integer.MAX_VALUE - 1, Integer.MAX_VALUE};
+    for (int expected : versions) {
+      refused("new, at " + expected, vault, 0, expected, 2);
+      refused("there, at " + expected, vault, 0, expected, 1);
+      refused("nothing there, at " + expected, vault, 8, expected, 1);
+    }
+    Due.is("-1 is the least that is a version", 0, () -> again(vault, -1, 1));
+    Due.is("-2 is anything", 0, () -> again(vault, -2, 1));
+  }
+
+  /** The draft is empty before and behind it, and nothing else is done. */
+  private static void refused(String what, EventVault vault, int stream, int expected, int... ids) {
+    Due.unchanged(what, vault, () -> {
+      for (int id : ids) {
+        vault.draft(id, 0, 0);
+      }
+      Due.badState(what, () -> vault.append(stream, expected));
+    });
   }
 }

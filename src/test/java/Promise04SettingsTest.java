@@ -7,6 +7,10 @@ public final class Promise04SettingsTest {
     streamsOfProjections();
     wrongCalls();
     powerFails();
+    smallestAndLargest();
+    edgeOfEach();
+    refusedChangesNothing();
+    refusedSetsNothing();
     Due.end();
   }
 
@@ -109,5 +113,96 @@ public final class Promise04SettingsTest {
     vault.reopen();
     Vaults.append(vault, 3, 3);
     Due.is("most lasts", 4, () -> vault.read(3, 0, 0, false));
+  }
+
+  private static void smallestAndLargest() {
+    EventVault vault = Vaults.with(0, 1, 2, 3);
+    int largest = Integer.MAX_VALUE;
+    Due.is("all 0", 0, () -> vault.settings(0, 0, 0, 0));
+    Due.is("the largest most", 0, () -> vault.settings(0, largest, 0, 0));
+    Due.is("the largest age", 0, () -> vault.settings(0, 0, largest, 0));
+    vault.tick(1000);
+    Due.is("nothing is so old", 3, () -> vault.told(3));
+    Due.is("the largest from", 3, () -> vault.settings(0, 0, 0, largest));
+    Due.is("all the largest, of an empty stream", 0, () -> vault.settings(1, largest, largest, largest));
+    Due.is("all the largest, of the last one", 0, () -> vault.settings(39, largest, largest, largest));
+    Vaults.append(vault, 1, 1, 2);
+    Due.is("hidden as they come", 2, () -> vault.settings(1, 0, 0, 0));
+    EventVault most = Vaults.with(31, 1);
+    Due.is("most 1 of one", 0, () -> most.settings(31, 1, 0, 0));
+    Due.is("from 1 of one", 1, () -> most.settings(31, 0, 0, 1));
+  }
+
+  /** Each number by one less, the same, and one more: five events, of which number 2 came as TIME was 10. */
+  private static void edgeOfEach() {
+    for (int by = -1; by <= 1; by++) {
+      int more = by;
+      Due.is("from 2, and " + by, 2 + by, () -> atTime20().settings(0, 0, 0, 2 + more));
+      Due.is("most 3, and " + by, 2 - by, () -> atTime20().settings(0, 3 + more, 0, 0));
+      Due.is("age 10, and " + by, 3 - by, () -> atTime20().settings(0, 0, 10 + more, 0));
+    }
+    EventVault now = atTime20();
+    Due.is("age 1 hides what came before", 4, () -> now.settings(0, 0, 1, 0));
+    Due.is("but not what came at this time", 4, () -> now.event(4, 1));
+    EventVault none = atTime20();
+    Due.is("age 0 is none", 0, () -> none.settings(0, 0, 0, 0));
+    Due.is("most as the version", 1, () -> none.settings(0, 4, 0, 0));
+    Due.is("from as the version", 4, () -> none.settings(0, 0, 0, 4));
+    Due.is("from one more", 5, () -> none.settings(0, 0, 0, 5));
+  }
+
+  private static EventVault atTime20() {
+    EventVault vault = Vaults.with(0, 1);
+    vault.tick(9);
+    Vaults.append(vault, 0, 2);
+    vault.tick(1);
+    Vaults.append(vault, 0, 3);
+    vault.tick(1);
+    Vaults.append(vault, 0, 4);
+    vault.tick(9);
+    Vaults.append(vault, 0, 5);
+    return vault;
+  }
+
+  private static void refusedChangesNothing() {
+    EventVault vault = Vaults.busy();
+    int[] noStreams = {-1, -2, 40, Integer.MIN_VALUE, Integer.MAX_VALUE};
+    for (int stream : noStreams) {
+      Due.badArgument("stream " + stream, vault, () -> vault.settings(stream, 1, 1, 1));
+    }
+    int[] below = {-1, Integer.MIN_VALUE};
+    for (int number : below) {
+      Due.badArgument("most " + number, vault, () -> vault.settings(0, number, 1, 2));
+      Due.badArgument("age " + number, vault, () -> vault.settings(0, 1, number, 2));
+      Due.badArgument("from " + number, vault, () -> vault.settings(0, 1, 1, number));
+    }
+    Due.badState("ended", vault, () -> vault.settings(5, 1, 1, 1));
+    EventVault off = Vaults.busyAndOff();
+    Due.badState("off", off, () -> off.settings(0, 1, 1, 1));
+    EventVault full = Vaults.busyAndFull(24);
+    Due.badState("the disk is full", full, () -> full.settings(0, 1, 0, 0));
+    full.power(0);
+    Due.badState("full, so power does not fail", full, () -> full.settings(0, 1, 0, 0));
+    EventVault fits = Vaults.busyAndFull(32);
+    Due.is("just so much room", 3, () -> fits.settings(0, 1, 0, 0));
+    Due.is("none is left", 0, () -> Vaults.free(fits));
+  }
+
+  /** What a refused call would have set would hide as soon as more is done. */
+  private static void refusedSetsNothing() {
+    EventVault vault = Vaults.with(0, 1, 2, 3);
+    Due.badArgument("most, and a wrong from", () -> vault.settings(0, 1, 0, -1));
+    Due.badArgument("from, and a wrong age", () -> vault.settings(0, 0, -1, 2));
+    Vaults.fillUp(vault, 24);
+    Due.badState("most, and no room", () -> vault.settings(0, 1, 0, 0));
+    Due.badState("age, and no room", () -> vault.settings(0, 0, 1, 0));
+    Due.badState("from, and no room", () -> vault.settings(0, 0, 0, 2));
+    vault.scavenge();
+    vault.power(31);
+    Due.powerFails("cut", () -> vault.settings(0, 1, 1, 2));
+    vault.reopen();
+    vault.tick(1);
+    Vaults.append(vault, 0, 4);
+    Due.is("all are visible", 4, () -> vault.told(3));
   }
 }

@@ -3,6 +3,8 @@ public final class Promise05EndTest {
     ends();
     wrongCalls();
     powerFails();
+    streamsThatEnd();
+    refusedChangesNothing();
     Due.end();
   }
 
@@ -55,5 +57,45 @@ public final class Promise05EndTest {
     vault.reopen();
     Due.is("ended", 1, () -> vault.told(200));
     Due.is("hidden", 0, () -> vault.told(3));
+  }
+
+  private static void streamsThatEnd() {
+    EventVault vault = new EventVault();
+    Due.is("the first, empty", 0, () -> vault.end(0));
+    Due.is("the last, empty", 0, () -> vault.end(31));
+    Vaults.append(vault, 1, 1);
+    Due.is("one", 1, () -> vault.end(1));
+    Vaults.append(vault, 2, 1, 2);
+    vault.settings(2, 0, 0, 2);
+    Due.is("with none that is visible", 0, () -> vault.end(2));
+    Vaults.append(vault, 3, 1, 2, 3, 4, 5, 6, 7, 8);
+    Vaults.append(vault, 4, 9);
+    Due.is("eight, and another stream's stays", 8, () -> vault.end(3));
+    Due.is("which is visible", 1, () -> vault.told(3));
+    Due.is("ended ones", 5, () -> {
+      int ended = 0;
+      for (int stream = 0; stream < 40; stream++) {
+        ended += vault.told(200 + stream);
+      }
+      return ended;
+    });
+  }
+
+  private static void refusedChangesNothing() {
+    EventVault vault = Vaults.busy();
+    int[] noStreams = {-1, 32, 33, 39, 40, Integer.MIN_VALUE, Integer.MAX_VALUE};
+    for (int stream : noStreams) {
+      Due.badArgument("stream " + stream, vault, () -> vault.end(stream));
+    }
+    Due.badState("ended", vault, () -> vault.end(5));
+    EventVault off = Vaults.busyAndOff();
+    Due.badState("off", off, () -> off.end(0));
+    EventVault full = Vaults.busyAndFull(24);
+    Due.badState("the disk is full", full, () -> full.end(0));
+    full.power(0);
+    Due.badState("full, so power does not fail", full, () -> full.end(0));
+    EventVault fits = Vaults.busyAndFull(32);
+    Due.is("just so much room", 3, () -> fits.end(0));
+    Due.is("none is left", 0, () -> Vaults.free(fits));
   }
 }

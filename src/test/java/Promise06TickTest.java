@@ -6,6 +6,10 @@ public final class Promise06TickTest {
     parksBeforeItHides();
     wrongCalls();
     powerFails();
+    smallestAndLargest();
+    triesAboveRetries();
+    allThatCanBeOut();
+    refusedChangesNothing();
     Due.end();
   }
 
@@ -112,5 +116,89 @@ public final class Promise06TickTest {
     Due.is("time", 8, () -> vault.told(1));
     Due.is("parked", 1, () -> vault.told(500));
     Due.is("none is out", 0, () -> vault.told(300));
+  }
+
+  private static void smallestAndLargest() {
+    EventVault vault = new EventVault();
+    vault.tick(1);
+    Due.is("the smallest", 1, () -> vault.told(1));
+    vault.tick(1000);
+    Due.is("the largest", 1001, () -> vault.told(1));
+    for (int i = 0; i < 500; i++) {
+      vault.tick(1000);
+    }
+    Due.is("as far as it goes", 501001, () -> vault.told(1));
+    for (int n = 6; n <= 9; n++) {
+      EventVault out = Vaults.with(0, 1);
+      out.group(0, 0, 0, 9);
+      out.take(0);
+      out.tick(1);
+      int more = n;
+      Due.is("1, and " + n, n >= 7 ? 1 : 0, () -> out.tick(more));
+      Due.is("out behind 1 and " + n, n >= 7 ? 0 : 1, () -> out.told(300));
+    }
+  }
+
+  /** Of two groups, one parks at so many tries, and the other at one more. */
+  private static void triesAboveRetries() {
+    EventVault vault = Vaults.with(0, 1);
+    vault.group(0, 0, 0, 8);
+    vault.group(1, 0, 0, 9);
+    for (int tries = 1; tries <= 10; tries++) {
+      vault.take(0);
+      vault.take(1);
+      Due.is("out at " + tries, tries == 10 ? 1 : 2, () -> vault.tick(8));
+      Due.is("parked at " + tries, tries >= 9 ? 1 : 0, () -> vault.told(500));
+      Due.is("parked by more at " + tries, tries >= 10 ? 1 : 0, () -> vault.told(501));
+    }
+  }
+
+  private static void allThatCanBeOut() {
+    EventVault vault = Vaults.with(0, 1, 2, 3, 4, 5, 6, 7, 8);
+    Vaults.append(vault, 1, 1, 2, 3, 4, 5, 6, 7, 8);
+    for (int g = 0; g < 8; g++) {
+      vault.group(g, -1, 0, g % 2);
+      for (int i = 0; i < 16; i++) {
+        vault.take(g);
+      }
+    }
+    vault.settings(0, 0, 0, 3);
+    int bytes = vault.told(4);
+    int records = vault.told(7);
+    Due.is("sixteen of eight groups", 128, () -> vault.tick(8));
+    Due.is("half of them are parked, hidden or not", bytes + 32 + 64 * 8, () -> vault.told(4));
+    Due.is("by one record", records + 1, () -> vault.told(7));
+    for (int g = 0; g < 8; g++) {
+      int asked = g;
+      Due.is("none is out for " + g, 0, () -> vault.told(300 + asked));
+      Due.is("visible ones that are parked for " + g, g % 2 == 0 ? 13 : 0, () -> vault.told(500 + asked));
+      Due.is("the next one for " + g, g % 2 == 0 ? -1 : 3, () -> vault.take(asked));
+    }
+  }
+
+  private static void refusedChangesNothing() {
+    EventVault vault = Vaults.busy();
+    int[] none = {0, -1, 1001, Integer.MIN_VALUE, Integer.MAX_VALUE};
+    for (int n : none) {
+      Due.badArgument("tick " + n, vault, () -> vault.tick(n));
+    }
+    EventVault off = Vaults.busyAndOff();
+    Due.badState("off", off, () -> off.tick(8));
+    EventVault full = Vaults.busyAndFull(40);
+    Due.badState("no room for two that park", full, () -> full.tick(8));
+    full.power(0);
+    Due.badState("full, so power does not fail", full, () -> full.tick(8));
+    full.power(-1);
+    Due.is("what is out stays so", 1, () -> full.acknowledge(0, 3));
+    Due.is("room for one that parks is gone", 8, () -> Vaults.free(full));
+    EventVault fits = Vaults.busyAndFull(48);
+    Due.is("room for two that park", 3, () -> fits.tick(8));
+    Due.is("none is left", 0, () -> Vaults.free(fits));
+    EventVault till = Vaults.with(0, 1);
+    till.group(0, 0, 0, 9);
+    till.take(0);
+    till.tick(7);
+    Due.badArgument("wrong, and a tick more would be its time", till, () -> till.tick(0));
+    Due.is("it is out still", 0, () -> till.acknowledge(0, 0));
   }
 }

@@ -10,6 +10,10 @@ public final class Promise07ReadTest {
     hidden(vault);
     wrongCalls(vault);
     theHundredth();
+    edgesOfNumbers();
+    edgesOfPositions();
+    edgesOfI();
+    refusedChangesNothing();
     Due.end();
   }
 
@@ -63,5 +67,95 @@ public final class Promise07ReadTest {
     }
     Due.is("i 100", 100, () -> vault.read(9, 0, 100, false));
     Due.is("i 100 back", 3, () -> vault.read(9, 103, 100, true));
+  }
+
+  /** NUMBERS 0 to 2 of STREAM 39, and 1 and 2 of STREAM 5 that are visible. */
+  private static void edgesOfNumbers() {
+    EventVault vault = Vaults.with(5, 1, 2, 3);
+    Vaults.project(vault, 7, 1, 0, 18, 0);
+    for (int i = 0; i < 3; i++) {
+      vault.step(7);
+    }
+    vault.settings(5, 0, 0, 1);
+    int[] from = {Integer.MIN_VALUE, -1, 0, 1, 2, 3, Integer.MAX_VALUE};
+    int[] up39 = {3, 3, 3, 4, 5, -1, -1};
+    int[] back39 = {-1, -1, 3, 4, 5, 5, 5};
+    int[] up5 = {1, 1, 1, 1, 2, -1, -1};
+    int[] back5 = {-1, -1, -1, 1, 2, 2, 2};
+    for (int i = 0; i < from.length; i++) {
+      int n = from[i];
+      Due.is("39 up from " + n, up39[i], () -> vault.read(39, n, 0, false));
+      Due.is("39 back from " + n, back39[i], () -> vault.read(39, n, 0, true));
+      Due.is("5 up from " + n, up5[i], () -> vault.read(5, n, 0, false));
+      Due.is("5 back from " + n, back5[i], () -> vault.read(5, n, 0, true));
+      Due.is("an empty one up from " + n, -1, () -> vault.read(0, n, 0, false));
+      Due.is("an empty one back from " + n, -1, () -> vault.read(0, n, 0, true));
+    }
+    Due.is("up to the last", 5, () -> vault.read(39, 0, 2, false));
+    Due.is("up behind the last", -1, () -> vault.read(39, 0, 3, false));
+    Due.is("back to the first", 3, () -> vault.read(39, 2, 2, true));
+    Due.is("back behind the first", -1, () -> vault.read(39, 2, 3, true));
+  }
+
+  /** POSITIONS 1, 2 and 4 are visible, of 0 to 4. */
+  private static void edgesOfPositions() {
+    EventVault vault = Vaults.with(0, 1, 2);
+    Vaults.append(vault, 31, 3);
+    Vaults.append(vault, 7, 4);
+    Vaults.append(vault, 0, 5);
+    vault.settings(0, 2, 0, 0);
+    vault.end(7);
+    int[] from = {Integer.MIN_VALUE, -1, 0, 1, 2, 3, 4, 5, Integer.MAX_VALUE};
+    int[] up = {1, 1, 1, 1, 2, 4, 4, -1, -1};
+    int[] back = {-1, -1, -1, 1, 2, 2, 4, 4, 4};
+    for (int i = 0; i < from.length; i++) {
+      int n = from[i];
+      Due.is("up from " + n, up[i], () -> vault.read(-1, n, 0, false));
+      Due.is("back from " + n, back[i], () -> vault.read(-1, n, 0, true));
+    }
+    Due.is("up to the last", 4, () -> vault.read(-1, 0, 2, false));
+    Due.is("up behind the last", -1, () -> vault.read(-1, 0, 3, false));
+    Due.is("back to the first", 1, () -> vault.read(-1, 4, 2, true));
+    Due.is("back behind the first", -1, () -> vault.read(-1, 4, 3, true));
+    Due.is("none of an ended one", -1, () -> vault.read(7, 0, 0, false));
+  }
+
+  /** 101 are visible, of one stream and of all. */
+  private static void edgesOfI() {
+    EventVault vault = Vaults.with(0, 1);
+    vault.end(0);
+    for (int i = 0; i < 12; i++) {
+      Vaults.append(vault, 9, 8 * i, 8 * i + 1, 8 * i + 2, 8 * i + 3, 8 * i + 4, 8 * i + 5, 8 * i + 6, 8 * i + 7);
+    }
+    Vaults.append(vault, 9, 96, 97, 98, 99);
+    int[] streams = {9, -1};
+    for (int stream : streams) {
+      Due.is("100 of 100 in " + stream, -1, () -> vault.read(stream, 0, 100, false));
+      Due.is("100 of 100 back in " + stream, -1, () -> vault.read(stream, 1000, 100, true));
+      Due.is("99 of 100 in " + stream, 100, () -> vault.read(stream, 0, 99, false));
+    }
+    Vaults.append(vault, 9, 100);
+    for (int stream : streams) {
+      Due.is("100 of 101 in " + stream, 101, () -> vault.read(stream, 0, 100, false));
+      Due.is("100 of 101 back in " + stream, 1, () -> vault.read(stream, 1000, 100, true));
+      Due.badArgument("101 in " + stream, () -> vault.read(stream, 0, 101, false));
+    }
+  }
+
+  private static void refusedChangesNothing() {
+    EventVault vault = Vaults.busy();
+    int[] noStreams = {-2, 40, 41, Integer.MIN_VALUE, Integer.MAX_VALUE};
+    for (int stream : noStreams) {
+      Due.badArgument("stream " + stream, vault, () -> vault.read(stream, 0, 0, false));
+    }
+    int[] noPlaces = {-1, 101, Integer.MIN_VALUE, Integer.MAX_VALUE};
+    for (int i : noPlaces) {
+      Due.badArgument("i " + i, vault, () -> vault.read(0, 0, i, false));
+      Due.badArgument("i " + i + " back", vault, () -> vault.read(-1, 0, i, true));
+    }
+    EventVault off = Vaults.busyAndOff();
+    Due.badState("off", off, () -> off.read(0, 0, 0, false));
+    Due.badState("off, of all", off, () -> off.read(-1, 0, 0, true));
+    Due.badArgument("off, and i 101", off, () -> off.read(0, 0, 101, false));
   }
 }

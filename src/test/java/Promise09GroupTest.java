@@ -4,6 +4,9 @@ public final class Promise09GroupTest {
     anew();
     wrongCalls();
     powerFails();
+    smallestAndLargest();
+    edgesOfPositions();
+    refusedChangesNothing();
     Due.end();
   }
 
@@ -83,5 +86,83 @@ public final class Promise09GroupTest {
     Due.powerFails("not made anew", () -> vault.group(0, 0, 0, 0));
     vault.reopen();
     Due.is("done as before", 1, () -> vault.told(400));
+  }
+
+  private static void smallestAndLargest() {
+    EventVault vault = Vaults.with(0, 1);
+    Due.is("all the smallest", 1, () -> vault.group(0, -1, 0, 0));
+    Due.is("all the largest", 0, () -> vault.group(7, 39, 2500, 9));
+    Due.is("the first stream", 1, () -> vault.group(1, 0, 0, 0));
+    for (int tries = 1; tries <= 10; tries++) {
+      vault.group(7, 0, 0, 9);
+      for (int i = 1; i < tries; i++) {
+        vault.take(7);
+        vault.refuse(7, 0);
+      }
+      vault.take(7);
+      Due.is("the largest retries, at " + tries, tries > 9 ? 1 : 0, () -> vault.refuse(7, 0));
+    }
+    Due.is("bytes of one made anew", 32, () -> {
+      int before = vault.told(4);
+      vault.group(7, 0, 0, 9);
+      return vault.told(4) - before;
+    });
+    Due.is("one more record", 1, () -> {
+      int before = vault.told(7);
+      vault.group(7, 0, 0, 9);
+      return vault.told(7) - before;
+    });
+  }
+
+  /** Three events, of which the first is hidden. */
+  private static void edgesOfPositions() {
+    EventVault vault = Vaults.with(0, 1, 2, 3);
+    vault.settings(0, 0, 0, 1);
+    int[] want = {2, 2, 1, 0, 0};
+    int[] first = {1, 1, 2, -1, -1};
+    for (int from = 0; from < want.length; from++) {
+      int position = from;
+      Due.is("from " + from, want[from], () -> vault.group(0, -1, position, 0));
+      Due.is("the first from " + from, first[from], () -> vault.take(0));
+    }
+    vault.group(0, -1, 3, 0);
+    Vaults.append(vault, 0, 4);
+    Due.is("one that came behind", 3, () -> vault.take(0));
+    vault.group(1, -1, 5, 0);
+    Vaults.append(vault, 0, 5, 6);
+    Due.is("not the last before it", 5, () -> vault.take(1));
+    vault.group(2, -1, 2500, 0);
+    Due.is("none ever", -1, () -> vault.take(2));
+  }
+
+  private static void refusedChangesNothing() {
+    EventVault vault = Vaults.busy();
+    int[] noGroups = {-1, 8, Integer.MIN_VALUE, Integer.MAX_VALUE};
+    for (int g : noGroups) {
+      Due.badArgument("group " + g, vault, () -> vault.group(g, 0, 0, 0));
+    }
+    int[] noStreams = {-2, 40, Integer.MIN_VALUE, Integer.MAX_VALUE};
+    for (int stream : noStreams) {
+      Due.badArgument("stream " + stream, vault, () -> vault.group(0, stream, 0, 0));
+    }
+    int[] noPositions = {-1, 2501, Integer.MIN_VALUE, Integer.MAX_VALUE};
+    for (int position : noPositions) {
+      Due.badArgument("position " + position, vault, () -> vault.group(0, 0, position, 0));
+    }
+    int[] noRetries = {-1, 10, Integer.MIN_VALUE, Integer.MAX_VALUE};
+    for (int retries : noRetries) {
+      Due.badArgument("retries " + retries, vault, () -> vault.group(0, 0, 0, retries));
+    }
+    Due.is("what is out stays so", 1, () -> vault.refuse(0, 3));
+    EventVault off = Vaults.busyAndOff();
+    Due.badState("off", off, () -> off.group(0, 0, 0, 0));
+    EventVault full = Vaults.busyAndFull(24);
+    Due.badState("the disk is full", full, () -> full.group(0, 0, 0, 0));
+    Due.badState("full, and a new one", full, () -> full.group(3, 0, 0, 0));
+    full.power(0);
+    Due.badState("full, so power does not fail", full, () -> full.group(0, 0, 0, 0));
+    EventVault fits = Vaults.busyAndFull(32);
+    Due.is("just so much room", 3, () -> fits.group(0, 0, 0, 0));
+    Due.is("none is left", 0, () -> Vaults.free(fits));
   }
 }

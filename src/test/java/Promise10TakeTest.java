@@ -4,6 +4,10 @@ public final class Promise10TakeTest {
     sixteen();
     hidden();
     wrongCalls();
+    sixteenOfEach();
+    noneTakesNoTry();
+    till();
+    refusedChangesNothing();
     Due.end();
   }
 
@@ -67,5 +71,79 @@ public final class Promise10TakeTest {
     Vaults.turnOff(vault);
     Due.badState("off", () -> vault.take(3));
     Due.badState("off, and no such group", () -> vault.take(8));
+  }
+
+  private static void sixteenOfEach() {
+    EventVault vault = Vaults.with(0, 1, 2, 3, 4, 5, 6, 7, 8);
+    Vaults.append(vault, 0, 11, 12, 13, 14, 15, 16, 17, 18);
+    Vaults.append(vault, 0, 21);
+    vault.group(0, -1, 0, 9);
+    vault.group(1, -1, 0, 9);
+    for (int i = 0; i < 16; i++) {
+      Due.is("out of the one " + i, i, () -> vault.told(300));
+      vault.take(0);
+    }
+    Due.is("the sixteenth is out", 16, () -> vault.told(300));
+    Due.is("no seventeenth", -1, () -> vault.take(0));
+    Due.is("sixteen still", 16, () -> vault.told(300));
+    Due.is("another group is not full", 0, () -> vault.take(1));
+    vault.refuse(0, 15);
+    Due.is("by refuse there is room", 15, () -> vault.take(0));
+    Due.is("but for one", -1, () -> vault.take(0));
+    vault.tick(8);
+    Due.is("as their time is come there is room", 0, () -> vault.take(0));
+  }
+
+  /** A call that answers -1 gives nothing, so what is out parks no sooner by it. */
+  private static void noneTakesNoTry() {
+    EventVault vault = Vaults.with(0, 1);
+    vault.group(0, 0, 0, 1);
+    vault.take(0);
+    Due.is("the only one is out", -1, () -> vault.take(0));
+    Due.is("and once more", -1, () -> vault.take(0));
+    Due.is("out once", 1, () -> vault.told(300));
+    Due.is("one try alone", 0, () -> vault.refuse(0, 0));
+    vault.take(0);
+    Due.is("the second", 1, () -> vault.refuse(0, 0));
+    Due.is("none but a parked one", -1, () -> vault.take(0));
+    EventVault done = Vaults.with(0, 1);
+    done.group(0, 0, 0, 1);
+    done.take(0);
+    done.acknowledge(0, 0);
+    Due.is("none but a done one", -1, () -> done.take(0));
+    EventVault hidden = Vaults.with(0, 1);
+    hidden.group(0, 0, 0, 1);
+    hidden.end(0);
+    Due.is("none but a hidden one", -1, () -> hidden.take(0));
+    EventVault empty = new EventVault();
+    empty.group(0, -1, 0, 0);
+    Due.is("none at all", -1, () -> empty.take(0));
+  }
+
+  /** What is given at TIME 5 is out as it is 12, and not as it is 13. */
+  private static void till() {
+    for (int n = 7; n <= 8; n++) {
+      EventVault vault = Vaults.with(0, 1);
+      vault.group(0, 0, 0, 9);
+      vault.tick(5);
+      vault.take(0);
+      vault.tick(n);
+      Due.is("behind " + n, n == 7 ? -1 : 0, () -> vault.take(0));
+    }
+  }
+
+  private static void refusedChangesNothing() {
+    EventVault vault = Vaults.busy();
+    int[] none = {-1, 1, 6, 8, Integer.MIN_VALUE, Integer.MAX_VALUE};
+    for (int g : none) {
+      Due.missing("group " + g, vault, () -> vault.take(g));
+    }
+    EventVault off = Vaults.busyAndOff();
+    Due.badState("off", off, () -> off.take(0));
+    Due.badState("off, and not made", off, () -> off.take(1));
+    EventVault full = Vaults.busyAndFull(0);
+    full.power(0);
+    Due.is("a full disk takes none away", 3, () -> full.take(7));
+    Due.is("on", 1, () -> full.told(0));
   }
 }

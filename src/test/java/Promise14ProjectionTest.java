@@ -6,6 +6,10 @@ public final class Promise14ProjectionTest {
     wrongCalls();
     full();
     powerFails();
+    oneAndSixtyFour();
+    edgesOfJumps();
+    eachBit();
+    refusedChangesNothing();
     Due.end();
   }
 
@@ -124,5 +128,121 @@ public final class Promise14ProjectionTest {
     Due.powerFails("not made anew", () -> Vaults.project(vault, 0, 19, 0));
     vault.reopen();
     Due.is("cursor as before", 1, () -> vault.told(600));
+  }
+
+  private static void oneAndSixtyFour() {
+    EventVault vault = Vaults.with(0, 1);
+    int before = vault.told(4);
+    Due.is("the shortest", 1, () -> Vaults.project(vault, 0, 19, 0));
+    Due.is("its bytes", before + 24 + 8, () -> vault.told(4));
+    Due.is("the longest", 64, () -> Vaults.project(vault, 7, new int[128]));
+    Due.is("its bytes, too", before + 24 + 8 + 24 + 64 * 8, () -> vault.told(4));
+    Due.is("two more records", 3, () -> vault.told(7));
+    Due.is("the first of them", 0, () -> vault.told(600));
+    Due.is("the last of them", 0, () -> vault.told(607));
+    for (int p = 1; p < 7; p++) {
+      int other = p;
+      Due.is("not made " + p, -1, () -> vault.told(600 + other));
+    }
+    vault.code(19, 0);
+    vault.code(19, 0);
+    vault.reopen();
+    Due.badArgument("empty by reopen", vault, () -> vault.projection(0, -1, -1, false));
+    Due.is("one anew", 1, () -> Vaults.project(vault, 7, 19, 0));
+    Due.is("runs no more than it has", 0, () -> vault.step(7));
+  }
+
+  /** A program of so many instructions, whose last one jumps. */
+  private static void edgesOfJumps() {
+    int[] lengths = {1, 2, 63, 64};
+    for (int op = 16; op <= 17; op++) {
+      for (int length : lengths) {
+        int[] wrong = {Integer.MIN_VALUE, -1, length + 1, 100, Integer.MAX_VALUE};
+        for (int to : wrong) {
+          EventVault vault = jumping(op, length, to);
+          Due.badArgument(op + " to " + to + " of " + length, vault, () -> vault.projection(0, -1, -1, true));
+        }
+        int[] right = {0, length - 1, length};
+        for (int to : right) {
+          EventVault vault = jumping(op, length, to);
+          Due.is(op + " to " + to + " of " + length, length, () -> vault.projection(0, -1, -1, true));
+        }
+      }
+    }
+    EventVault first = Vaults.busy();
+    Vaults.code(first, 17, 4, 19, 0, 19, 0);
+    Due.badArgument("the first one too far", first, () -> first.projection(0, -1, -1, false));
+    EventVault others = new EventVault();
+    Vaults.code(others, 0, 99, 1, -1, 14, 99, 19, -1);
+    Due.is("what others say is no place", 4, () -> others.projection(0, -1, -1, false));
+  }
+
+  private static EventVault jumping(int op, int length, int to) {
+    EventVault vault = new EventVault();
+    for (int i = 1; i < length; i++) {
+      vault.code(19, 0);
+    }
+    vault.code(op, to);
+    return vault;
+  }
+
+  /** Each STREAM and each TYPE, by its bit alone, and by all but it. */
+  private static void eachBit() {
+    for (int bit = 0; bit < 32; bit++) {
+      EventVault vault = new EventVault();
+      vault.draft(1, bit % 16, 0);
+      vault.append(bit, -1);
+      int here = 1 << bit;
+      int type = 1 << bit % 16;
+      Due.is("stream " + bit, 0, () -> stepFor(vault, here, -1));
+      Due.is("all but stream " + bit, -1, () -> stepFor(vault, ~here, -1));
+      Due.is("type of " + bit, 0, () -> stepFor(vault, -1, type));
+      Due.is("all but type of " + bit, -1, () -> stepFor(vault, -1, ~type));
+      Due.is("bits that say nothing at " + bit, -1, () -> stepFor(vault, -1, type << 16));
+    }
+  }
+
+  private static int stepFor(EventVault vault, int streams, int types) {
+    vault.code(19, 0);
+    vault.projection(3, streams, types, false);
+    return vault.step(3);
+  }
+
+  private static void refusedChangesNothing() {
+    EventVault vault = Vaults.busy();
+    Due.badArgument("an empty program", vault, () -> vault.projection(0, -1, -1, false));
+    vault.code(1, 0);
+    vault.code(6, 2);
+    int[] none = {-1, 8, Integer.MIN_VALUE, Integer.MAX_VALUE};
+    for (int p : none) {
+      Due.badArgument("projection " + p, vault, () -> vault.projection(p, -1, -1, false));
+    }
+    vault.code(16, 9);
+    Due.badArgument("a jump too far", vault, () -> vault.projection(0, -1, -1, false));
+    EventVault off = Vaults.busyAndOff();
+    off.code(19, 0);
+    Due.badState("off", off, () -> off.projection(0, -1, -1, false));
+    EventVault full = Vaults.busyAndFull(32);
+    Vaults.code(full, 1, 0, 6, 2);
+    Due.badState("the disk is full", full, () -> full.projection(0, -1, -1, false));
+    full.power(0);
+    Due.badState("full, so power does not fail", full, () -> full.projection(0, -1, -1, false));
+    full.power(-1);
+    Due.is("the one that was made goes on", 4, () -> stepAfterScavenge(full));
+    Due.is("the program is as it was", 2, () -> full.projection(0, -1, -1, false));
+    Due.is("anew", 1, () -> full.step(0));
+    Due.is("by this program", 20, () -> full.variable(0, 0, 2));
+    EventVault fits = Vaults.busyAndFull(40);
+    Vaults.code(fits, 1, 0, 6, 2);
+    Due.is("just so much room", 2, () -> fits.projection(0, -1, -1, false));
+    Due.is("none is left", 0, () -> Vaults.free(fits));
+  }
+
+  /** PROJECTION 0 has worked POSITION 1, and works 2, 3 and 4 then. */
+  private static int stepAfterScavenge(EventVault vault) {
+    vault.scavenge();
+    vault.step(0);
+    vault.step(0);
+    return vault.step(0);
   }
 }

@@ -21,6 +21,64 @@ public final class Promise16VariableTest {
     Due.badState("off, and no such projection", () -> vault.variable(8, 31, 3));
     vault.reopen();
     Due.is("it lasts", 10, () -> vault.variable(7, 31, 3));
+    each();
+    allTogether();
+    refusedChangesNothing();
     Due.end();
+  }
+
+  /** Each of the four, of each of the first and the last streams, by a value of its own. */
+  private static void each() {
+    EventVault vault = new EventVault();
+    int[] streams = {0, 1, 30, 31};
+    for (int stream : streams) {
+      vault.draft(1, 0, stream == 31 ? Long.MIN_VALUE : 100 * stream);
+      vault.append(stream, -1);
+    }
+    Vaults.project(vault, 0, 1, 0, 6, 0, 1, 0, 0, 1, 7, 0, 6, 1, 1, 0, 0, 2, 7, 0, 6, 2, 1, 0, 0, 3, 7, 0, 6, 3);
+    for (int i = 0; i < 4; i++) {
+      vault.step(0);
+    }
+    for (int asked = 0; asked < 32; asked++) {
+      int stream = asked;
+      boolean worked = stream < 2 || stream > 29;
+      long first = stream == 31 ? Long.MIN_VALUE : 100 * stream;
+      for (int place = 0; place < 4; place++) {
+        int v = place;
+        Due.is("variable " + v + " of " + stream, worked ? first + v : 0, () -> vault.variable(0, stream, v));
+      }
+    }
+  }
+
+  private static void allTogether() {
+    EventVault vault = Vaults.with(31, 1);
+    Vaults.code(vault, 1, 0, 6, 3);
+    vault.projection(0, -1, -1, true);
+    vault.step(0);
+    Due.is("those of stream 0", 10, () -> vault.variable(0, 0, 3));
+    for (int asked = 1; asked < 32; asked++) {
+      int stream = asked;
+      Due.is("of others 0, " + stream, 0, () -> vault.variable(0, stream, 3));
+    }
+  }
+
+  private static void refusedChangesNothing() {
+    EventVault vault = Vaults.busy();
+    int[] notMade = {-1, 1, 8, Integer.MIN_VALUE, Integer.MAX_VALUE};
+    for (int p : notMade) {
+      Due.missing("projection " + p, vault, () -> vault.variable(p, 0, 0));
+    }
+    int[] noStreams = {-1, 32, 39, Integer.MIN_VALUE, Integer.MAX_VALUE};
+    for (int stream : noStreams) {
+      Due.badArgument("stream " + stream, vault, () -> vault.variable(0, stream, 0));
+    }
+    int[] noVariables = {-1, 4, Integer.MIN_VALUE, Integer.MAX_VALUE};
+    for (int v : noVariables) {
+      Due.badArgument("variable " + v, vault, () -> vault.variable(0, 31, v));
+    }
+    Due.is("of a broken one", 0, () -> vault.variable(6, 0, 0));
+    EventVault off = Vaults.busyAndOff();
+    Due.badState("off", off, () -> off.variable(0, 0, 3));
+    Due.badState("off, and variable 4", off, () -> off.variable(0, 0, 4));
   }
 }

@@ -8,6 +8,10 @@ public final class Promise17ScavengeTest {
     wrongCalls();
     wouldBeFull();
     powerFails();
+    eachPartAlone();
+    everyByte();
+    sameAgain();
+    refusedChangesNothing();
     Due.end();
   }
 
@@ -178,5 +182,133 @@ public final class Promise17ScavengeTest {
     Due.is("positions stay", 3, vault::reopen);
     Due.is("visible", 1, () -> vault.told(3));
     Due.is("its position", 2, () -> vault.read(0, 0, 0, false));
+  }
+
+  /** What each thing alone takes behind the 64 of none. */
+  private static void eachPartAlone() {
+    kept("nothing set", 0, vault -> vault.settings(0, 0, 0, 0));
+    kept("most 1", 24, vault -> vault.settings(0, 1, 0, 0));
+    kept("age 1", 24, vault -> vault.settings(31, 0, 1, 0));
+    kept("from 1", 24, vault -> vault.settings(32, 0, 0, 1));
+    kept("three large ones", 24, vault -> vault.settings(39, 1 << 30, 1 << 30, 1 << 30));
+    kept("an end", 24, vault -> vault.end(31));
+    kept("one event", 48, vault -> Vaults.append(vault, 0, 1));
+    kept("one hidden event", 24, vault -> {
+      Vaults.append(vault, 0, 1);
+      vault.settings(0, 0, 0, 1);
+      vault.settings(0, 0, 0, 0);
+    });
+    kept("an ended event", 24, vault -> {
+      Vaults.append(vault, 0, 1);
+      vault.end(0);
+    });
+    kept("a tick", 0, vault -> vault.tick(1000));
+    kept("a draft and a program", 0, vault -> {
+      vault.draft(1, 0, 0);
+      vault.code(19, 0);
+    });
+    kept("the last group", 32, vault -> vault.group(7, 39, 2500, 9));
+    kept("all groups", 8 * 32, vault -> {
+      for (int g = 0; g < 8; g++) {
+        vault.group(g, -1, 0, 0);
+      }
+    });
+    kept("one that is out", 48 + 32, vault -> {
+      Vaults.append(vault, 0, 1);
+      vault.group(0, -1, 0, 0);
+      vault.take(0);
+    });
+    kept("one that was made anew", 48 + 32, vault -> {
+      Vaults.append(vault, 0, 1);
+      vault.group(0, -1, 0, 0);
+      vault.take(0);
+      vault.acknowledge(0, 0);
+      vault.group(0, -1, 0, 0);
+    });
+    kept("the shortest program", 64 + 8, vault -> Vaults.project(vault, 0, 19, 0));
+    kept("the longest program", 64 + 64 * 8, vault -> Vaults.project(vault, 7, new int[128]));
+    kept("what is emitted is an event of its stream", 48 + 48 + 64 + 16, vault -> {
+      Vaults.append(vault, 0, 1);
+      Vaults.project(vault, 7, 0, 0, 18, 0);
+      vault.step(7);
+    });
+    for (int place = 0; place < 4; place++) {
+      int v = place;
+      keptVariable("variable " + v, 40, vault -> Vaults.project(vault, 0, 1, 0, 6, v));
+    }
+    keptVariable("a variable that is 0", 0, vault -> Vaults.project(vault, 0, 0, 0, 6, 0));
+  }
+
+  private interface Deeds {
+    void happen(EventVault vault);
+  }
+
+  private static void kept(String what, int bytes, Deeds deeds) {
+    EventVault vault = new EventVault();
+    deeds.happen(vault);
+    Due.is(what, 64 + bytes, vault::scavenge);
+    Due.is(what + ": bytes", 64 + bytes, () -> vault.told(4));
+    Due.is(what + ": records", 1, () -> vault.told(7));
+  }
+
+  /** Of high bits alone, by a program of two instructions. */
+  private static void keptVariable(String what, int bytes, Deeds projects) {
+    kept(what, 48 + 64 + 16 + bytes, vault -> {
+      vault.draft(1, 0, 1L << 40);
+      vault.append(31, -1);
+      projects.happen(vault);
+      vault.step(0);
+    });
+  }
+
+  /** Cut at each byte that a busy object's record has, and not behind the last one. */
+  private static void everyByte() {
+    int size = Vaults.busy().scavenge();
+    EventVault whole = Vaults.busy();
+    whole.reopen();
+    String before = Seen.of(whole);
+    whole.scavenge();
+    String after = Seen.of(whole);
+    EventVault vault = Vaults.busy();
+    for (int k = 0; k < size; k++) {
+      vault.power(k);
+      Due.powerFails("scavenge behind " + k, vault::scavenge);
+      vault.reopen();
+      Due.same("changed behind " + k, "nothing", Seen.difference(before, Seen.of(vault)));
+    }
+    int[] behind = {size, size + 1, 70000};
+    for (int k : behind) {
+      EventVault lasts = Vaults.busy();
+      lasts.power(k);
+      Due.powerFails("scavenge behind all, " + k, lasts::scavenge);
+      Due.is("bytes behind all, " + k, size, () -> lasts.told(4));
+      lasts.reopen();
+      Due.same("changed behind all, " + k, "nothing", Seen.difference(after, Seen.of(lasts)));
+    }
+  }
+
+  private static void sameAgain() {
+    EventVault vault = Vaults.busy();
+    vault.draft(1, 0, 0);
+    vault.code(19, 0);
+    int size = vault.scavenge();
+    Due.unchanged("scavenging once more", vault, () -> Due.is("the same again", size, vault::scavenge));
+    Due.is("what is out stays so", 1, () -> vault.acknowledge(0, 3));
+    Due.is("draft stays", 1, () -> vault.told(5));
+    Due.is("program stays", 1, () -> vault.told(6));
+  }
+
+  private static void refusedChangesNothing() {
+    EventVault off = Vaults.busyAndOff();
+    Due.badState("off", off, off::scavenge);
+    EventVault full = Vaults.busyAndFull(0);
+    int bytes = full.scavenge();
+    Due.is("a full disk is none that would be full", bytes, () -> full.told(4));
+    EventVault crowded = crowded(1148);
+    Due.badState("32 bytes too many", crowded, crowded::scavenge);
+    crowded.power(0);
+    Due.badState("too many, so power does not fail", crowded, crowded::scavenge);
+    crowded.power(-1);
+    Due.is("what is on the disk goes on, and its stack is too full", -2, () -> crowded.step(7));
   }
 }

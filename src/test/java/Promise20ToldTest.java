@@ -32,6 +32,9 @@ public final class Promise20ToldTest {
     Due.is("visible", 0, () -> vault.told(3));
     wrong(vault);
     whileOff(vault);
+    everyNumber();
+    eachCount();
+    whileOffEach();
     Due.end();
   }
 
@@ -60,5 +63,114 @@ public final class Promise20ToldTest {
       Due.is("off, told(" + what + ")", -1, () -> vault.told(what));
     }
     wrong(vault);
+  }
+
+  /** Every number from -1000 to 1100 is one of those that the document names, or none. */
+  private static void everyNumber() {
+    EventVault vault = Vaults.busy();
+    for (int asked = -1000; asked <= 1100; asked++) {
+      int what = asked;
+      boolean streams = what >= 100 && what < 140 || what >= 200 && what < 240;
+      boolean others = what >= 300 && what < 800 && what % 100 < 8;
+      if (what >= 0 && what < 8 || streams || others) {
+        Due.is("told(" + what + ") answers", 1, () -> vault.told(what) >= -1 ? 1 : 0);
+      } else {
+        Due.badArgument("told(" + what + ")", () -> vault.told(what));
+      }
+    }
+    int[] far = {Integer.MIN_VALUE, Integer.MIN_VALUE + 96, Integer.MIN_VALUE + 100, Integer.MAX_VALUE - 47,
+        Integer.MAX_VALUE, 65536, 65636, 1 << 30};
+    for (int what : far) {
+      Due.badArgument("told(" + what + ")", vault, () -> vault.told(what));
+    }
+  }
+
+  /** Each stream, group and projection has its own. */
+  private static void eachCount() {
+    EventVault vault = new EventVault();
+    int[] streams = {0, 1, 30, 31};
+    for (int i = 0; i < streams.length; i++) {
+      for (int id = 0; id <= i; id++) {
+        Vaults.append(vault, streams[i], id);
+      }
+      Due.is("version of one more", i, versionOf(vault, streams[i]));
+    }
+    Due.is("version without", -1, versionOf(vault, 2));
+    Due.is("version of a projection's without", -1, versionOf(vault, 32));
+    int[] ended = {1, 31};
+    for (int stream : ended) {
+      vault.end(stream);
+    }
+    for (int asked = 0; asked < 40; asked++) {
+      int stream = asked;
+      int want = stream == 1 || stream == 31 ? 1 : 0;
+      Due.is("ended " + stream, want, () -> vault.told(200 + stream));
+    }
+    for (int asked = 0; asked < 8; asked++) {
+      int n = asked;
+      Due.is("not made: out " + n, -1, () -> vault.told(300 + n));
+      Due.is("not made: done " + n, -1, () -> vault.told(400 + n));
+      Due.is("not made: parked " + n, -1, () -> vault.told(500 + n));
+      Due.is("not made: cursor " + n, -1, () -> vault.told(600 + n));
+      Due.is("not made: broken " + n, -1, () -> vault.told(700 + n));
+      vault.group(n, 30, 0, 0);
+      vault.take(n);
+      vault.take(n);
+      vault.take(n);
+      vault.acknowledge(n, 3);
+      vault.refuse(n, 4);
+      Vaults.project(vault, n, n == 5 ? 14 : 19, 0);
+      vault.step(n);
+      Due.is("out " + n, 1, () -> vault.told(300 + n));
+      Due.is("done " + n, 1, () -> vault.told(400 + n));
+      Due.is("parked " + n, 1, () -> vault.told(500 + n));
+      Due.is("cursor " + n, n == 5 ? 0 : 1, () -> vault.told(600 + n));
+      Due.is("broken " + n, n == 5 ? 1 : 0, () -> vault.told(700 + n));
+    }
+    int[] want = {1, 0, 10, 4};
+    for (int i = 0; i < want.length; i++) {
+      int what = i;
+      Due.is("of all, " + what, want[what], () -> vault.told(what));
+    }
+    vault.settings(30, 0, 0, 3);
+    for (int asked = 0; asked < 8; asked++) {
+      int g = asked;
+      Due.is("hidden, and out " + g, 1, () -> vault.told(300 + g));
+      Due.is("hidden, so not done " + g, 0, () -> vault.told(400 + g));
+      Due.is("hidden, so not parked " + g, 0, () -> vault.told(500 + g));
+    }
+  }
+
+  private static Due.Call versionOf(EventVault vault, int stream) {
+    return () -> vault.told(100 + stream);
+  }
+
+  /** Told of all that can be asked while it is off, made or not. */
+  private static void whileOffEach() {
+    EventVault vault = Vaults.busy();
+    int bytes = vault.told(4);
+    int records = vault.told(7);
+    Vaults.turnOff(vault);
+    for (int i = 0; i < 8; i++) {
+      vault.draft(i, 0, 0);
+    }
+    for (int i = 0; i < 64; i++) {
+      vault.code(19, 0);
+    }
+    int[] loud = {0, -1, -1, -1, bytes, 8, 64, records};
+    int[] most = {8, 40, 40, 8, 8, 8, 8, 8};
+    for (int hundreds = 0; hundreds < 8; hundreds++) {
+      for (int which = 0; which < most[hundreds]; which++) {
+        int what = 100 * hundreds + which;
+        Due.is("off, told(" + what + ")", what < 8 ? loud[what] : -1, () -> vault.told(what));
+      }
+      int behind = 100 * hundreds + most[hundreds];
+      Due.badArgument("off, told(" + behind + ")", vault, () -> vault.told(behind));
+    }
+    Due.badArgument("off, told(-1)", vault, () -> vault.told(-1));
+    vault.reopen();
+    Due.is("on", 1, () -> vault.told(0));
+    Due.is("no draft", 0, () -> vault.told(5));
+    Due.is("no program", 0, () -> vault.told(6));
   }
 }

@@ -17,6 +17,45 @@ final class Vaults {
     return vault;
   }
 
+  /**
+   * Something of everything: STREAM 0 has one that is hidden of four, 5 is ended, 31 has two; GROUP 0 has two out, one
+   * done, one parked; GROUP 7 has one out; PROJECTION 0 has worked and emitted, 6 was broken.
+   */
+  static EventVault busy() {
+    EventVault vault = with(0, 1, 2, 3, 4);
+    append(vault, 31, 5, 6);
+    append(vault, 5, 7);
+    vault.end(5);
+    vault.settings(0, 0, 0, 1);
+    vault.tick(3);
+    vault.group(0, -1, 0, 0);
+    for (int i = 0; i < 4; i++) {
+      vault.take(0);
+    }
+    vault.acknowledge(0, 1);
+    vault.refuse(0, 2);
+    vault.group(7, 0, 2, 9);
+    vault.take(7);
+    project(vault, 0, 1, 0, 6, 3, 4, 0, 18, 2);
+    vault.step(0);
+    project(vault, 6, 14, 0);
+    vault.step(6);
+    return vault;
+  }
+
+  /** With so many bytes left on its disk. It takes more calls than an object is promised for. */
+  static EventVault busyAndFull(int left) {
+    EventVault vault = busy();
+    fillUp(vault, left);
+    return vault;
+  }
+
+  static EventVault busyAndOff() {
+    EventVault vault = busy();
+    turnOff(vault);
+    return vault;
+  }
+
   static EventVault off() {
     EventVault vault = new EventVault();
     turnOff(vault);
