@@ -150,13 +150,7 @@ public final class Promise03AppendTest {
     Due.is("room for 48 bytes", 0, () -> fits.append(0, -2));
     fits.draft(1, 0, 0);
     Due.is("nothing done needs no room", 0, () -> fits.append(0, -2));
-    EventVault many = new EventVault();
-    for (int i = 0; i < 312; i++) {
-      Vaults.append(many, 0, 1, 2, 3, 4, 5, 6, 7, 8);
-      many.settings(0, 1, 0, 0);
-      many.settings(0, 0, 0, i * 8 + 8);
-      many.scavenge();
-    }
+    EventVault many = Vaults.many();
     Vaults.append(many, 0, 1, 2, 3);
     refused("2501 events", many, 1, -2, 1, 2);
     Due.is("2500 events", 2499, () -> Vaults.append(many, 1, 1));
@@ -166,6 +160,8 @@ public final class Promise03AppendTest {
     Due.is("what is there already makes none more", 2499, () -> Vaults.append(many, 1, 1));
     Due.is("the last position", 1, () -> many.event(2499, 0));
     Due.is("those that are there", 2496, () -> Vaults.append(many, 0, 1, 2, 3));
+    refused("one that is there, and one behind the last", many, 1, -2, 1, 2);
+    refused("those that are there, from the second on", many, 0, -2, 2, 3, 4);
   }
 
   private static void powerFails() {

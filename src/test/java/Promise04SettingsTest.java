@@ -11,6 +11,7 @@ public final class Promise04SettingsTest {
     edgeOfEach();
     refusedChangesNothing();
     refusedSetsNothing();
+    forEver();
     Due.end();
   }
 
@@ -204,5 +205,32 @@ public final class Promise04SettingsTest {
     vault.tick(1);
     Vaults.append(vault, 0, 4);
     Due.is("all are visible", 4, () -> vault.told(3));
+  }
+
+  /** What was hidden by a number that is 0 then, or by a time, or as more came, stays so. */
+  private static void forEver() {
+    EventVault aged = Vaults.with(0, 1, 2);
+    aged.settings(0, 0, 3, 0);
+    aged.tick(3);
+    Due.is("by a tick", 2, () -> aged.settings(0, 0, 0, 0));
+    EventVault pushed = Vaults.with(0, 1, 2);
+    pushed.settings(0, 2, 0, 0);
+    Vaults.append(pushed, 0, 3);
+    Due.is("by what came", 1, () -> pushed.settings(0, 0, 0, 0));
+    pushed.scavenge();
+    pushed.reopen();
+    Due.is("scavenged", 1, () -> pushed.settings(0, 0, 0, 0));
+    EventVault late = Vaults.with(0, 1);
+    late.settings(0, 0, 0, 3);
+    Vaults.append(late, 0, 2);
+    late.settings(0, 0, 0, 0);
+    late.reopen();
+    Due.is("as it came", 2, () -> late.settings(0, 0, 0, 0));
+    Due.is("not what comes then", 2, () -> Vaults.append(late, 0, 3));
+    Due.is("which is visible", 2, () -> late.read(0, 0, 0, false));
+    late.power(0);
+    Due.powerFails("cut", () -> late.settings(0, 0, 0, 9));
+    late.reopen();
+    Due.is("hidden by none that was cut", 1, () -> late.told(3));
   }
 }

@@ -10,6 +10,7 @@ public final class Promise06TickTest {
     triesAboveRetries();
     allThatCanBeOut();
     refusedChangesNothing();
+    hidesTheLastPosition();
     Due.end();
   }
 
@@ -200,5 +201,20 @@ public final class Promise06TickTest {
     till.tick(7);
     Due.badArgument("wrong, and a tick more would be its time", till, () -> till.tick(0));
     Due.is("it is out still", 0, () -> till.acknowledge(0, 0));
+  }
+
+  /** Age hides as far as the positions go. More calls than an object is promised for. */
+  private static void hidesTheLastPosition() {
+    EventVault vault = Vaults.most();
+    vault.settings(31, 0, 5, 0);
+    vault.group(0, -1, 2499, 0);
+    vault.take(0);
+    vault.tick(4);
+    Due.is("not yet", 4, () -> vault.told(3));
+    vault.tick(1);
+    Due.is("all are hidden", 0, () -> vault.told(3));
+    Due.is("the last one is out till its time", 1, () -> vault.tick(3));
+    Due.is("hidden, so none is told", 0, () -> vault.told(500));
+    Due.is("none is out", 0, () -> vault.told(300));
   }
 }

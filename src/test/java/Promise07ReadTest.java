@@ -14,6 +14,7 @@ public final class Promise07ReadTest {
     edgesOfPositions();
     edgesOfI();
     refusedChangesNothing();
+    theLastPosition();
     Due.end();
   }
 
@@ -157,5 +158,16 @@ public final class Promise07ReadTest {
     Due.badState("off", off, () -> off.read(0, 0, 0, false));
     Due.badState("off, of all", off, () -> off.read(-1, 0, 0, true));
     Due.badArgument("off, and i 101", off, () -> off.read(0, 0, 101, false));
+  }
+
+  /** More calls than an object is promised for. */
+  private static void theLastPosition() {
+    EventVault vault = Vaults.most();
+    Due.is("the last up", 2499, () -> vault.read(-1, 2499, 0, false));
+    Due.is("behind the last up", -1, () -> vault.read(-1, 2500, 0, false));
+    Due.is("the last back", 2499, () -> vault.read(-1, 2500, 0, true));
+    Due.is("the last of its stream", 2499, () -> vault.read(31, 3, 0, false));
+    Due.is("the first visible", 2496, () -> vault.read(-1, 0, 0, false));
+    Due.is("none of a stream that is hidden", -1, () -> vault.read(0, 2495, 0, true));
   }
 }

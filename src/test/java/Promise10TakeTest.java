@@ -8,6 +8,7 @@ public final class Promise10TakeTest {
     noneTakesNoTry();
     till();
     refusedChangesNothing();
+    theLastPosition();
     Due.end();
   }
 
@@ -145,5 +146,25 @@ public final class Promise10TakeTest {
     full.power(0);
     Due.is("a full disk takes none away", 3, () -> full.take(7));
     Due.is("on", 1, () -> full.told(0));
+  }
+
+  /** More calls than an object is promised for. */
+  private static void theLastPosition() {
+    EventVault vault = Vaults.most();
+    vault.group(0, -1, 2499, 0);
+    vault.group(1, 31, 0, 0);
+    vault.group(2, -1, 2500, 0);
+    Due.is("the last", 2499, () -> vault.take(0));
+    Due.is("none behind it", -1, () -> vault.take(0));
+    Due.is("none from 2500 on", -1, () -> vault.take(2));
+    for (int i = 2496; i <= 2499; i++) {
+      int position = i;
+      Due.is("take " + i, i, () -> vault.take(1));
+      Due.is("acknowledge " + i, 0, () -> vault.acknowledge(1, position));
+    }
+    Due.is("refuse the last", 1, () -> vault.refuse(0, 2499));
+    Due.is("parked", 1, () -> vault.told(500));
+    Due.is("done", 4, () -> vault.told(401));
+    Due.is("kept", 64 + 4 * 24 + 2 * 24 + 3 * 32 + 5 * 4, vault::scavenge);
   }
 }

@@ -251,12 +251,7 @@ public final class Promise15StepTest {
     Vaults.fillUp(less, 16);
     Due.badState("no room for 24 bytes", () -> less.step(0));
     Due.is("not broken", 0, () -> less.told(700));
-    EventVault many = new EventVault();
-    for (int i = 0; i < 312; i++) {
-      Vaults.append(many, 0, 1, 2, 3, 4, 5, 6, 7, 8);
-      many.settings(0, 0, 0, i * 8 + 8);
-      many.scavenge();
-    }
+    EventVault many = Vaults.many();
     Vaults.append(many, 0, 1, 2, 3);
     Vaults.project(many, 0, 0, 1, 18, 0, 0, 1, 18, 0);
     Due.badState("2501 events", () -> many.step(0));
@@ -482,16 +477,10 @@ public final class Promise15StepTest {
     Due.is("the cursor stays", 1, () -> worked.told(600));
   }
 
-  /** 2500 events, the last but two of which are visible. More calls than an object is promised for. */
+  /** 2500 events, of which the last two are visible. More calls than an object is promised for. */
   private static void atTheLastPosition() {
-    EventVault vault = new EventVault();
-    for (int i = 0; i < 312; i++) {
-      Vaults.append(vault, 0, 1, 2, 3, 4, 5, 6, 7, 8);
-      vault.settings(0, 0, 0, i * 8 + 8);
-      vault.scavenge();
-    }
-    Vaults.append(vault, 0, 1, 2, 3, 4);
-    vault.settings(0, 0, 0, 2498);
+    EventVault vault = Vaults.most();
+    vault.settings(31, 2, 0, 0);
     Vaults.project(vault, 0, 4, 0, 18, 0);
     Vaults.project(vault, 1, 4, 0, 6, 0);
     Vaults.project(vault, 2, 14, 0);
@@ -502,16 +491,14 @@ public final class Promise15StepTest {
     Due.is("none is behind it", -1, () -> vault.step(1));
     Due.is("broken needs no position", -2, () -> vault.step(2));
     Due.is("its cursor", 2498, () -> vault.told(602));
-    Due.is("a number", 2499, () -> vault.variable(1, 0, 0));
-    EventVault last = new EventVault();
-    for (int i = 0; i < 312; i++) {
-      Vaults.append(last, 0, 1, 2, 3, 4, 5, 6, 7, 8);
-      last.settings(0, 0, 0, i == 311 ? 2495 : i * 8 + 8);
-      last.scavenge();
-    }
+    Due.is("the last number", 3, () -> vault.variable(1, 31, 0));
+    EventVault last = Vaults.many();
+    Vaults.append(last, 0, 1);
     Vaults.project(last, 0, 0, 1, 18, 0, 0, 1, 18, 0, 0, 1, 18, 0, 0, 1, 18, 0);
-    Due.is("four to the last position", 2495, () -> last.step(0));
-    Due.is("its id", 4 * 2495 + 3, () -> last.event(2499, 2));
+    Due.badState("four, but three positions are left", last, () -> last.step(0));
+    Vaults.project(last, 0, 0, 1, 18, 0, 0, 1, 18, 0, 0, 1, 18, 0);
+    Due.is("three to the last position", 2496, () -> last.step(0));
+    Due.is("its id", 4 * 2496 + 2, () -> last.event(2499, 2));
   }
 
   private static void refusedChangesNothing() {

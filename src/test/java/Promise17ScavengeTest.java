@@ -12,6 +12,7 @@ public final class Promise17ScavengeTest {
     everyByte();
     sameAgain();
     refusedChangesNothing();
+    whatStays();
     Due.end();
   }
 
@@ -137,11 +138,7 @@ public final class Promise17ScavengeTest {
 
   /** Scavenged, and then eight projections made. More calls than an object is promised for. */
   private static EventVault crowded(int parked) {
-    EventVault vault = new EventVault();
-    for (int i = 0; i < 300; i++) {
-      int first = 8 * i;
-      Vaults.append(vault, i % 32, first, first + 1, first + 2, first + 3, first + 4, first + 5, first + 6, first + 7);
-    }
+    EventVault vault = Vaults.spread(300);
     for (int g = 0; g < 8; g++) {
       park(vault, g, parked);
     }
@@ -310,5 +307,48 @@ public final class Promise17ScavengeTest {
     Due.badState("too many, so power does not fail", crowded, crowded::scavenge);
     crowded.power(-1);
     Due.is("what is on the disk goes on, and its stack is too full", -2, () -> crowded.step(7));
+  }
+
+  /** What a record of all says is what there was: each setting, want and mask works on, and nothing in memory ends. */
+  private static void whatStays() {
+    for (int opened = 0; opened < 2; opened++) {
+      EventVault vault = Vaults.with(0, 1, 2, 3);
+      vault.settings(0, 2, 0, 0);
+      vault.settings(1, 0, 2, 0);
+      vault.settings(2, 0, 0, 1);
+      vault.end(3);
+      vault.group(0, 2, 4, 1);
+      vault.code(1, 0);
+      vault.code(6, 1);
+      vault.projection(0, 1 << 2, 1, true);
+      Vaults.project(vault, 1, 14, 0);
+      vault.step(1);
+      vault.scavenge();
+      if (opened == 1) {
+        vault.reopen();
+      }
+      String when = opened == 1 ? " when reopened" : "";
+      Due.is("a version" + when, 3, () -> Vaults.append(vault, 0, 4));
+      Due.is("most" + when, 2, () -> vault.read(-1, 0, 0, false));
+      Due.is("from" + when, 4, () -> Vaults.append(vault, 2, 5, 6));
+      Due.is("from hides the first" + when, 5, () -> vault.read(2, 0, 0, false));
+      Due.is("age" + when, 6, () -> Vaults.append(vault, 1, 7));
+      vault.tick(2);
+      Due.is("age hides" + when, -1, () -> vault.read(1, 0, 0, false));
+      Due.badState("ended" + when, () -> Vaults.append(vault, 3, 8));
+      Due.is("a stream and a position that are wanted" + when, 5, () -> vault.take(0));
+      Due.is("retries" + when, 0, () -> vault.refuse(0, 5));
+      Due.is("stream and type" + when, 5, () -> vault.step(0));
+      Due.is("for all together" + when, 60, () -> vault.variable(0, 0, 1));
+      Due.badState("broken" + when, () -> vault.step(1));
+      Due.is("its cursor" + when, 1, () -> vault.told(601));
+    }
+    EventVault tries = Vaults.with(0, 1);
+    tries.group(0, 0, 0, 1);
+    tries.take(0);
+    tries.refuse(0, 0);
+    tries.scavenge();
+    tries.take(0);
+    Due.is("tries stay", 1, () -> tries.refuse(0, 0));
   }
 }

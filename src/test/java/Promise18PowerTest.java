@@ -8,6 +8,7 @@ public final class Promise18PowerTest {
     everyRecord();
     largestRecord();
     refusedChangesNothing();
+    staysToldTillTheNextRecord();
     Due.end();
   }
 
@@ -140,11 +141,7 @@ public final class Promise18PowerTest {
 
   /** Only a scavenge has RECORDS of 70000 bytes and more, by more calls than an object is promised for. */
   private static void largestRecord() {
-    EventVault vault = new EventVault();
-    for (int i = 0; i < 312; i++) {
-      int first = 8 * i;
-      Vaults.append(vault, i % 32, first, first + 1, first + 2, first + 3, first + 4, first + 5, first + 6, first + 7);
-    }
+    EventVault vault = Vaults.spread(312);
     for (int i = 0; i < 8; i++) {
       Vaults.project(vault, i, new int[128]);
       vault.group(i, -1, 0, 0);
@@ -192,5 +189,27 @@ public final class Promise18PowerTest {
     for (int k : right) {
       Due.is("power " + k + ", while off", 0, Due.call(() -> vault.power(k)));
     }
+  }
+
+  /** What is refused or needs no RECORD leaves it to the next one. */
+  private static void staysToldTillTheNextRecord() {
+    EventVault vault = Vaults.busyAndFull(24);
+    vault.power(23);
+    Due.badState("settings without room", vault, () -> vault.settings(0, 1, 0, 0));
+    Due.badState("an end without room", vault, () -> vault.end(0));
+    Due.badState("a tick without room", vault, () -> vault.tick(1));
+    Due.badState("a group without room", vault, () -> vault.group(0, 0, 0, 0));
+    Due.badState("an acknowledge without room", vault, () -> vault.acknowledge(0, 3));
+    Due.badState("a step without room", vault, () -> vault.step(0));
+    Due.badArgument("no tick", vault, () -> vault.tick(0));
+    Due.missing("no group", vault, () -> vault.take(3));
+    vault.draft(70, 0, 0);
+    Due.badState("an append without room", () -> vault.append(9, -1));
+    vault.code(19, 0);
+    Due.badState("a projection without room", vault, () -> vault.projection(0, -1, -1, false));
+    Due.is("a refuse that does not park", 0, () -> vault.refuse(7, 2));
+    Due.powerFails("one that does", () -> vault.refuse(0, 3));
+    vault.reopen();
+    Due.is("and does not last", 1, () -> vault.told(500));
   }
 }

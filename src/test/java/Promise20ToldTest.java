@@ -35,6 +35,7 @@ public final class Promise20ToldTest {
     everyNumber();
     eachCount();
     whileOffEach();
+    ofTheMost();
     Due.end();
   }
 
@@ -172,5 +173,29 @@ public final class Promise20ToldTest {
     Due.is("on", 1, () -> vault.told(0));
     Due.is("no draft", 0, () -> vault.told(5));
     Due.is("no program", 0, () -> vault.told(6));
+  }
+
+  /** More calls than an object is promised for. */
+  private static void ofTheMost() {
+    EventVault vault = Vaults.most();
+    vault.group(7, -1, 2496, 0);
+    for (int i = 0; i < 4; i++) {
+      vault.take(7);
+    }
+    vault.acknowledge(7, 2499);
+    vault.refuse(7, 2498);
+    Due.is("positions", 2500, () -> vault.told(2));
+    Due.is("visible", 4, () -> vault.told(3));
+    Due.is("version", 2495, () -> vault.told(100));
+    Due.is("out", 2, () -> vault.told(307));
+    Due.is("done", 1, () -> vault.told(407));
+    Due.is("parked", 1, () -> vault.told(507));
+    Vaults.project(vault, 7, 19, 0);
+    for (int i = 0; i < 4; i++) {
+      vault.step(7);
+    }
+    Due.is("cursor", 2500, () -> vault.told(607));
+    Vaults.fillUp(vault, 0);
+    Due.is("bytes", 100000, () -> vault.told(4));
   }
 }

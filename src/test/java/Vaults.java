@@ -43,6 +43,34 @@ final class Vaults {
     return vault;
   }
 
+  /** POSITIONS 0 to 2495, all hidden, of STREAM 0. It takes more calls than an object is promised for. */
+  static EventVault many() {
+    EventVault vault = new EventVault();
+    for (int behind = 8; behind <= 2496; behind += 8) {
+      append(vault, 0, 1, 2, 3, 4, 5, 6, 7, 8);
+      vault.settings(0, 0, 0, behind);
+      vault.scavenge();
+    }
+    return vault;
+  }
+
+  /** All 2500 POSITIONS, of which the last four, of STREAM 31, are visible. */
+  static EventVault most() {
+    EventVault vault = many();
+    append(vault, 31, 1, 2, 3, 4);
+    return vault;
+  }
+
+  /** So many rows of eight events, all visible, in one stream after another. */
+  static EventVault spread(int rows) {
+    EventVault vault = new EventVault();
+    for (int i = 0; i < rows; i++) {
+      int first = 8 * i;
+      append(vault, i % 32, first, first + 1, first + 2, first + 3, first + 4, first + 5, first + 6, first + 7);
+    }
+    return vault;
+  }
+
   /** With so many bytes left on its disk. It takes more calls than an object is promised for. */
   static EventVault busyAndFull(int left) {
     EventVault vault = busy();
