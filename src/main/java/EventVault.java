@@ -859,21 +859,33 @@ public final class EventVault {
   /** A row of instructions. */
   private static final class Program {
     private static final int MOST = 64;
-    private static final int OPS = 20;
+    private static final int PUSH = 0;
+    private static final int DATA = 1;
+    private static final int TYPE = 2;
+    private static final int STREAM = 3;
+    private static final int NUMBER = 4;
     private static final int GET = 5;
     private static final int SET = 6;
     private static final int ADD = 7;
+    private static final int SUBTRACT = 8;
+    private static final int MULTIPLY = 9;
+    private static final int DIVIDE = 10;
+    private static final int LESS = 11;
     private static final int SAME = 12;
+    private static final int DOUBLE = 13;
+    private static final int DROP = 14;
+    private static final int CHANGE = 15;
     private static final int JUMP = 16;
     private static final int JUMP_IF_ZERO = 17;
     private static final int EMIT = 18;
+    private static final int END = 19;
 
     private final int[] ops = new int[MOST];
     private final int[] args = new int[MOST];
     private int count;
 
     static boolean isInstruction(int op, int a) {
-      if (op < 0 || op >= OPS) {
+      if (op < PUSH || op > END) {
         return false;
       }
       if (op == GET || op == SET) {
@@ -1020,22 +1032,22 @@ public final class EventVault {
 
     private long pushed(int op, int a, Events events, int position) {
       switch (op) {
-        case 0: return a;
-        case 1: return events.dataOf[position];
-        case 2: return events.typeOf[position];
-        case 3: return events.streamOf[position];
-        case 4: return events.numberOf[position];
+        case Program.PUSH: return a;
+        case Program.DATA: return events.dataOf[position];
+        case Program.TYPE: return events.typeOf[position];
+        case Program.STREAM: return events.streamOf[position];
+        case Program.NUMBER: return events.numberOf[position];
         default: return variables[a];
       }
     }
 
     private long joined(int op, long lower, long top) {
       switch (op) {
-        case 7: return lower + top;
-        case 8: return lower - top;
-        case 9: return lower * top;
-        case 10: return divided(lower, top);
-        case 11: return lower < top ? 1 : 0;
+        case Program.ADD: return lower + top;
+        case Program.SUBTRACT: return lower - top;
+        case Program.MULTIPLY: return lower * top;
+        case Program.DIVIDE: return divided(lower, top);
+        case Program.LESS: return lower < top ? 1 : 0;
         default: return lower == top ? 1 : 0;
       }
     }
@@ -1051,9 +1063,9 @@ public final class EventVault {
     private void workRest(int op, int a) {
       switch (op) {
         case Program.SET: variables[a] = pop(); break;
-        case 13: pushTwice(pop()); break;
-        case 14: pop(); break;
-        case 15: pushChanged(pop(), pop()); break;
+        case Program.DOUBLE: pushTwice(pop()); break;
+        case Program.DROP: pop(); break;
+        case Program.CHANGE: pushChanged(pop(), pop()); break;
         case Program.JUMP: next = a; break;
         case Program.JUMP_IF_ZERO: next = pop() == 0 ? a : next; break;
         case Program.EMIT: emit(a, pop()); break;
